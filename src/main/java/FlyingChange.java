@@ -35,9 +35,10 @@ public final class FlyingChange {
         WITH_PORTER = 6;
     // A SALE.
     private static final int NO_SALE = 0, OPEN = 1, ANSWERED = 2, REFUSED = 3;
-    // FIRST and NEAR are both CATCHES and ORDERS; BY_CUP is an order of our own, by number alone.
-    private static final int FIRST = 0, NEAR_CATCH = 1, TURN = 2;
-    private static final int OLDEST = 1, NEAR_ORDER = 2, BY_CUP = 3;
+    // CATCHES; what is neither FIRST nor TURN is NEAR.
+    private static final int FIRST_CATCH = 0, TURN_CATCH = 2;
+    // ORDERS; BY_CUP is one of our own, by number alone.
+    private static final int FIRST = 0, OLDEST = 1, NEAR = 2, BY_CUP = 3;
 
     private final Post[] posts = new Post[MOST_POSTS];
     private final Cup[] cups = new Cup[MOST_CUPS];
@@ -115,7 +116,7 @@ public final class FlyingChange {
     private static boolean fitsJoint(int what, int v) {
         switch (what) {
             case 0:
-                return within(v, FIRST, TURN);
+                return within(v, FIRST_CATCH, TURN_CATCH);
             case 1:
                 return v == 0 || within(v, 2, 9);
             case 2:
@@ -194,7 +195,7 @@ public final class FlyingChange {
     }
 
     public int order(int rule) {
-        if (!within(rule, FIRST, NEAR_ORDER)) {
+        if (!within(rule, FIRST, NEAR)) {
             return OUTSIDE;
         }
         int was = orderRule;
@@ -475,7 +476,7 @@ public final class FlyingChange {
             Clerk k = clerks[i];
             if (k.cup != null) {
                 k.left--;
-                if (k.left <= 0) {
+                if (k.left == 0) {
                     finish(k, k.cup);
                 }
             }
@@ -484,7 +485,6 @@ public final class FlyingChange {
 
     private void finish(Clerk k, Cup c) {
         k.cup = null;
-        k.left = 0;
         if (c.sale == OPEN) {
             settle(c);
         }
@@ -710,7 +710,7 @@ public final class FlyingChange {
     }
 
     public int worstBy(int rule) {
-        if (!within(rule, FIRST, NEAR_ORDER)) {
+        if (!within(rule, FIRST, NEAR)) {
             return OUTSIDE;
         }
         int size = lineUp(rule);
@@ -949,9 +949,9 @@ public final class FlyingChange {
         private final int[] tried = new int[KINDS];
 
         /**
-         * How many coins; NONE: it can't be given. Two less than can be had of the 60s, or of the 30s,
-         * are never fewest: what then lies in lesser coins has such a part that goes into a free 60, or
-         * into two free 30s.
+         * How many coins; NONE: it can't be given. One less than fits of the 60s, and then of the 30s, may
+         * be fewest, two less never: among the lesser coins some are then worth just a 60 that is left, or
+         * just two 30s that are left, and these are fewer.
          */
         int find(int[] lying, int amount) {
             int fewest = NONE;
@@ -970,7 +970,7 @@ public final class FlyingChange {
             return fewest;
         }
 
-        /** Of the lesser KINDS each is worth some of the one below it: so the greatest first is fewest. */
+        /** The other KINDS are each worth a number of the one below, so that the greatest first is fewest. */
         private int fill(int[] lying, int sixties, int thirties, int amount) {
             tried[SIXTY] = sixties;
             tried[THIRTY] = thirties;
@@ -1119,7 +1119,7 @@ public final class FlyingChange {
         final Way up = new Way();
         final Way down = new Way();
         /** The CATCH of a JOINT, and the CHILD from which a CUP went UP last (0: none did). */
-        int latch = FIRST;
+        int latch = FIRST_CATCH;
         int turn;
         int worn;
         /** How many CUPS came down since one was thrown the wrong way. */
@@ -1155,10 +1155,10 @@ public final class FlyingChange {
 
         /** Which of those that wait to go UP from here come first, told by the CHILD they came from. */
         int rank(Post from) {
-            if (from == null || latch == FIRST) {
+            if (from == null || latch == FIRST_CATCH) {
                 return 0;
             }
-            return latch == TURN && from.number <= turn ? from.number + MOST_POSTS : from.number;
+            return latch == TURN_CATCH && from.number <= turn ? from.number + MOST_POSTS : from.number;
         }
 
         int wantedLines() {
@@ -1285,7 +1285,7 @@ public final class FlyingChange {
                 case OLDEST:
                     before = Integer.compare(sentTick(), other.sentTick());
                     break;
-                case NEAR_ORDER:
+                case NEAR:
                     before = Integer.compare(home.number, other.home.number);
                     before = before == 0 ? Integer.compare(stamp, other.stamp) : before;
                     break;
@@ -1307,6 +1307,7 @@ public final class FlyingChange {
         private int size;
         /** In how many ticks that which is taken at a place is done. */
         private final int[] done = new int[MOST_PLANNED];
+        /** Of those in the line; none is, but while they are gone through. */
         private final boolean[] taken = new boolean[MOST_PLANNED];
         private final int[] tried = new int[MOST_PLANNED];
         private final int[] best = new int[MOST_PLANNED];
@@ -1358,9 +1359,6 @@ public final class FlyingChange {
         /** The greatest WAIT of THE BEST ORDER; of that the line is to be by CUPS. */
         int findBest() {
             least = ENDLESS;
-            for (int i = 0; i < size; i++) {
-                taken[i] = false;
-            }
             search(this, 0, 0);
             return least;
         }

@@ -142,6 +142,8 @@ public final class OrderTest {
         Due.is("seven: worstBy(-1)", x.worstBy(-1), OUTSIDE);
         x.tick(1);
         Due.is("six, done in 4 .. 14: 17 + 12 of the last that was sent at 4", x.worst(), 29);
+        Due.is("six, as they are: 17 + 12", x.worstBy(1), 29);
+        Due.is("near: 3, 6, 1, 4, 2, 5: 21 + 12 of the last but one", x.worstBy(2), 33);
     }
 
     private static void promise25best() {

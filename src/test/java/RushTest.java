@@ -97,6 +97,7 @@ public final class RushTest {
         Due.is("twice 37 times 10 is more", oneWire(10, 10, 37).lines(1), 2);
         Due.is("72 times 10 by 720 is 1", oneWire(10, 10, 72).lines(1), 2);
         Due.is("73 times 10 by 720 is above 1", oneWire(10, 10, 73).lines(1), 4);
+        Due.is("103 times 7 is 721: by 720 above 1", oneWire(20, 7, 103).lines(1), 4);
         Due.is("300 times 10 by 720 is 4 and more", oneWire(20, 10, 300).lines(1), 10);
         Due.is("288 times 10 by 720 is 4", oneWire(20, 10, 288).lines(1), 8);
         FlyingChange x = oneWire(10, 10, 36);
@@ -143,6 +144,10 @@ public final class RushTest {
         Due.is("loss(4, 2)", x.loss(4, 2), 4 * 200 * 9);
         Due.is("loss(2, 2)", x.loss(2, 2), 0);
         Due.is("loss(1, 3)", x.loss(1, 3), 0);
+        x.rush(4, 0, 7);
+        x.rush(4, 5, 8);
+        Due.is("loss(4, 0)", x.loss(4, 0), 4 * 7 * 9);
+        Due.is("loss(4, 5)", x.loss(4, 5), 4 * 8 * 9);
         Due.is("of the cage", x.loss(0, 2), UNKNOWN);
         Due.is("of none", x.loss(6, 9), UNKNOWN);
         Due.is("of -1", x.loss(-1, 2), UNKNOWN);

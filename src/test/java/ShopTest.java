@@ -53,6 +53,10 @@ public final class ShopTest {
         Due.is("length 0, when full", x.post(0, true, 0, 1, true), OUTSIDE);
         Due.is("under none, when full", x.post(16, true, 1, 1, true), UNKNOWN);
         Due.is("posts", x.total(0), 16);
+        Due.is("there is no post 16: about(16, 0)", x.about(16, 0), UNKNOWN);
+        Due.is("there is no post 16: cord(16, true)", x.cord(16, true), UNKNOWN);
+        Due.is("there is no post 16: on(16, true)", x.on(16, true), UNKNOWN);
+        Due.is("the last one: cord(15, true)", x.cord(15, true), 1);
     }
 
     private static void promise2refusals() {
@@ -150,6 +154,7 @@ public final class ShopTest {
         Due.is("of a joint, when full", x.cup(1), STATE);
         Due.is("of none, when full", x.cup(9), UNKNOWN);
         Due.is("cups", x.total(1), 24);
+        Due.is("there is no cup 24", x.cupAt(24, 0), UNKNOWN);
         Due.is("its home", x.cupAt(23, 5), 2);
         Due.is("it is at home", x.cupAt(23, 0), 0);
     }
@@ -165,6 +170,7 @@ public final class ShopTest {
         Due.is("a 5th clerk", x.clerk(3), FULL);
         Due.is("clerk(-1), when full", x.clerk(-1), OUTSIDE);
         Due.is("clerks", x.total(4), 4);
+        Due.is("there is no clerk 4", x.clerkAt(4, 0), UNKNOWN);
     }
 
     private static void promise8order() {
@@ -213,7 +219,10 @@ public final class ShopTest {
         Due.is("19 are there: of kind 0", x.till(0), 3);
         Due.is("19 are there: of kind 1", x.till(1), 4);
         Due.is("there is room again", x.fetch(0, 1, 1), 8);
-        x.tick(196);
+        x.fetch(5, 3, 2);
+        x.tick(2);
+        Due.is("of its own kind", x.till(5), 3 + 3);
+        x.tick(194);
         Due.is("the late one is there", x.till(2), 108);
     }
 }

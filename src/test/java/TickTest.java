@@ -170,8 +170,16 @@ public final class TickTest {
         isAt(y, "double: up waits for its own gap", 1, WAITING, 1, 0);
         y.tick(1);
         isAt(y, "double: up after 10", 1, ON_WIRE, 1, 0);
-        y.tick(2);
-        isAt(y, "double: down on 3, so again on 13", 1, ON_WIRE, 1, 0);
+        FlyingChange z = oneWire(1, 10, true, 2);
+        z.clerk(12);
+        z.clerk(1);
+        sendAll(z, 0, 1);
+        z.tick(13);
+        isAt(z, "double: down", 1, ON_WIRE, 1, 0);
+        z.tick(9);
+        isAt(z, "double: down waits for its own gap", 0, WAITING, 0, 14);
+        z.tick(1);
+        isAt(z, "double: down after 10", 0, ON_WIRE, 1, 0);
     }
 
     /** CUP 0 is done at TICK 22 and waits to go down; CUP 1 is sent at the TICK told. */
