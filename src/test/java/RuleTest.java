@@ -1,0 +1,909 @@
+/** The ends within the rules: of a WIRE, of a CATCH, of a count, of a SALE, of a PORTER's way, of BELLS. */
+public final class RuleTest {
+    private static final int STATE = FlyingChange.STATE, NONE = FlyingChange.NONE;
+    private static final int HOME = 0, WAITING = 1, ON_WIRE = 2, IN_ROW = 3, WITH_CLERK = 4, STRAY = 5, WITH_PORTER = 6;
+
+    public static void main(String[] args) {
+        promise16lengths();
+        promise16gapsUp();
+        promise16gapsDown();
+        promise16gapsOfAShortWire();
+        promise16gapsOfASingleWire();
+        promise16standingCups();
+        promise16standingCupsTheOtherWay();
+        promise16gapBehindACupThatIsGone();
+        promise16firstAtACatch();
+        promise16nearAtACatch();
+        promise16turnAtACatch();
+        promise16turnOfOneChild();
+        promise16turnOfANewChild();
+        promise16wornByEach();
+        promise16wornAnew();
+        promise16wornNotAnew();
+        promise16wornNextChildByNumber();
+        promise16wornWithoutARightChild();
+        promise16jointWithoutChildren();
+        promise16clerksNeed();
+        promise16salesAreAskedOnce();
+        promise16changeOfNothing();
+        promise16fetchedForTheNext();
+        promise13porterWays();
+        promise13porterTakesNoOther();
+        promise13porterIsThere();
+        promise21likeChange();
+        promise23greatestWait();
+        promise24leastClerk();
+        promise33ringsOnceForEach();
+        promise35leastTicks();
+        promise35noneBehindTheTick();
+        Due.end();
+    }
+
+    private static void isAt(FlyingChange x, String when, int cup, int where, int at, int measure) {
+        String call = when + ", tick " + x.total(2) + ": cupAt(" + cup + ", ";
+        Due.is(call + "0)", x.cupAt(cup, 0), where);
+        Due.is(call + "1)", x.cupAt(cup, 1), at);
+        Due.is(call + "2)", x.cupAt(cup, 2), measure);
+    }
+
+    private static void sendAll(FlyingChange x, int... cups) {
+        for (int c : cups) {
+            x.send(c, 1, 0, 1);
+        }
+    }
+
+    /** COUNTER 1 on THE CAGE with so many CUPS. */
+    private static FlyingChange oneWire(int length, int gap, boolean both, int cups) {
+        FlyingChange x = new FlyingChange();
+        x.post(0, true, length, gap, both);
+        for (int i = 0; i < cups; i++) {
+            x.cup(1);
+        }
+        return x;
+    }
+
+    // ---- a wire
+
+    private static void promise16lengths() {
+        for (int length = 1; length <= 20; length++) {
+            FlyingChange x = oneWire(length, 1, false, 1);
+            x.clerk(1);
+            sendAll(x, 0);
+            x.tick(length);
+            isAt(x, "length " + length, 0, ON_WIRE, 1, length - 1);
+            x.tick(1);
+            isAt(x, "length " + length, 0, WITH_CLERK, 0, 1);
+            x.tick(length);
+            isAt(x, "length " + length + ", down", 0, ON_WIRE, 1, length - 1);
+            Due.is("length " + length + ", it goes down", x.cupAt(0, 3), 0);
+            x.tick(1);
+            isAt(x, "length " + length + ", home", 0, HOME, 1, NONE);
+            Due.is("length " + length + ", its wait", x.waits(1, 2), 2 * length + 2);
+        }
+    }
+
+    private static void promise16gapsUp() {
+        for (int gap = 1; gap <= 10; gap++) {
+            for (int sort = 0; sort < 2; sort++) {
+                FlyingChange x = oneWire(20, gap, sort == 1, 3);
+                sendAll(x, 0, 1, 2);
+                x.tick(gap);
+                isAt(x, "gap " + gap + ", a tick too early", 1, WAITING, 1, 0);
+                x.tick(1);
+                isAt(x, "gap " + gap, 1, ON_WIRE, 1, 0);
+                isAt(x, "gap " + gap + ", the first", 0, ON_WIRE, 1, gap);
+                if (gap > 1) {
+                    x.tick(gap - 1);
+                    isAt(x, "gap " + gap + ", a tick too early again", 2, WAITING, 1, 0);
+                }
+                x.tick(1);
+                isAt(x, "gap " + gap + ", again", 2, ON_WIRE, 1, 0);
+            }
+        }
+    }
+
+    /** CUPS 0 and 1 are in THE ROW; two CLERKS are done with both at the TICK that is told. */
+    private static FlyingChange bothDone(int length, int gap, boolean both) {
+        FlyingChange x = oneWire(length, gap, both, 2);
+        sendAll(x, 0, 1);
+        x.tick(60);
+        x.clerk(2);
+        x.clerk(2);
+        x.tick(3);
+        return x;
+    }
+
+    private static void promise16gapsDown() {
+        for (int gap = 1; gap <= 10; gap++) {
+            for (int length = 1; length <= 20; length += 19) {
+                for (int sort = 0; sort < 2; sort++) {
+                    FlyingChange x = bothDone(length, gap, sort == 1);
+                    isAt(x, "gap " + gap + ", the first goes down", 0, ON_WIRE, 1, 0);
+                    isAt(x, "gap " + gap + ", the second waits", 1, WAITING, 0, 63);
+                    if (gap > 1) {
+                        x.tick(gap - 1);
+                        isAt(x, "gap " + gap + ", a tick too early", 1, WAITING, 0, 63);
+                    }
+                    x.tick(1);
+                    isAt(x, "gap " + gap + ", down", 1, ON_WIRE, 1, 0);
+                }
+            }
+        }
+    }
+
+    private static void promise16gapsOfAShortWire() {
+        for (int gap = 2; gap <= 10; gap++) {
+            for (int sort = 0; sort < 2; sort++) {
+                FlyingChange x = oneWire(1, gap, sort == 1, 2);
+                sendAll(x, 0, 1);
+                x.tick(gap);
+                isAt(x, "the wire is empty", 0, IN_ROW, NONE, 2);
+                isAt(x, "less than " + gap + " ticks ago", 1, WAITING, 1, 0);
+                x.tick(1);
+                isAt(x, gap + " ticks ago", 1, ON_WIRE, 1, 0);
+            }
+        }
+    }
+
+    private static void promise16gapsOfASingleWire() {
+        for (int gap = 1; gap <= 10; gap++) {
+            FlyingChange x = oneWire(1, gap, false, 2);
+            x.clerk(1);
+            sendAll(x, 0);
+            int down = Math.max(3, 1 + gap);
+            x.tick(down - 1);
+            Due.is("single, gap " + gap + ": not down yet", x.cupAt(0, 0), gap > 2 ? WAITING : WITH_CLERK);
+            x.tick(1);
+            isAt(x, "single, gap " + gap + ": down", 0, ON_WIRE, 1, 0);
+            sendAll(x, 1);
+            if (gap > 1) {
+                x.tick(gap - 1);
+                isAt(x, "single, gap " + gap + ": not up yet", 1, WAITING, 1, down);
+            }
+            x.tick(1);
+            isAt(x, "single, gap " + gap + ": up", 1, ON_WIRE, 1, 0);
+            FlyingChange y = oneWire(1, gap, true, 2);
+            y.clerk(1);
+            sendAll(y, 0);
+            y.tick(3);
+            isAt(y, "double, gap " + gap + ": down at once", 0, ON_WIRE, 1, 0);
+        }
+        FlyingChange z = oneWire(1, 10, true, 2);
+        z.clerk(8);
+        sendAll(z, 0);
+        z.tick(10);
+        isAt(z, "double: down", 0, ON_WIRE, 1, 0);
+        sendAll(z, 1);
+        z.tick(1);
+        isAt(z, "double: up a tick later, as 10 ticks ago one went up", 1, ON_WIRE, 1, 0);
+    }
+
+    private static void promise16standingCups() {
+        for (int place = 0; place <= 6; place++) {
+            for (int sort = 0; sort < 2; sort++) {
+                FlyingChange x = oneWire(20, 5, sort == 1, 2);
+                sendAll(x, 0);
+                x.tick(1 + place);
+                x.cord(1, false);
+                sendAll(x, 1);
+                x.tick(30);
+                isAt(x, "it stands", 0, ON_WIRE, 1, place);
+                isAt(x, "none goes on a broken wire", 1, WAITING, 1, 1 + place);
+                x.cord(1, true);
+                int early = Math.max(1, 5 - place);
+                if (early > 1) {
+                    x.tick(early - 1);
+                    isAt(x, "at a place less than 5, from " + place, 1, WAITING, 1, 1 + place);
+                }
+                x.tick(1);
+                isAt(x, "at 5 and farther, from " + place, 1, ON_WIRE, 1, 0);
+            }
+        }
+    }
+
+    private static void promise16standingCupsTheOtherWay() {
+        for (int place = 0; place <= 19; place += 19) {
+            for (int sort = 0; sort < 2; sort++) {
+                FlyingChange x = oneWire(20, 2, sort == 1, 2);
+                x.clerk(1);
+                sendAll(x, 0);
+                x.tick(22 + place);
+                x.cord(1, false);
+                sendAll(x, 1);
+                x.tick(30);
+                isAt(x, "it stands on its way down", 0, ON_WIRE, 1, place);
+                x.cord(1, true);
+                x.tick(1);
+                boolean gone = place == 19;
+                isAt(x, "from " + place, 0, gone ? HOME : ON_WIRE, 1, gone ? NONE : 1);
+                boolean may = sort == 1 || gone;
+                isAt(x, "the other way", 1, may ? ON_WIRE : WAITING, 1, may ? 0 : 22 + place);
+            }
+        }
+    }
+
+    private static void promise16gapBehindACupThatIsGone() {
+        for (int sort = 0; sort < 2; sort++) {
+            FlyingChange x = oneWire(20, 10, sort == 1, 2);
+            sendAll(x, 0, 1);
+            x.tick(1);
+            x.cord(1, false);
+            Due.is("a porter takes it", x.porter(0), 2);
+            x.cord(1, true);
+            x.tick(9);
+            Due.is("the wire is empty", x.on(1, true), 0);
+            isAt(x, "it went on 9 ticks ago", 1, WAITING, 1, 0);
+            x.tick(1);
+            isAt(x, "it went on 10 ticks ago", 1, ON_WIRE, 1, 0);
+        }
+    }
+
+    // ---- a catch
+
+    /** A JOINT 1 with COUNTERS 2, 3, 4; WIRE 1 is BROKEN, all are of LENGTH 1. */
+    private static FlyingChange catching(int latch, int... homes) {
+        FlyingChange x = new FlyingChange();
+        x.post(0, false, 1, 1, true);
+        for (int i = 0; i < 3; i++) {
+            x.post(1, true, 1, 1, true);
+        }
+        x.joint(1, 0, latch);
+        x.cord(1, false);
+        for (int home : homes) {
+            x.cup(home);
+        }
+        return x;
+    }
+
+    private static void comeInTurn(FlyingChange x, String when, int... cups) {
+        x.cord(1, true);
+        x.tick(cups.length + 1);
+        for (int i = 0; i < cups.length; i++) {
+            Due.is(when + ": row(" + i + ")", x.row(i), cups[i]);
+        }
+        Due.is(when + ": no more", x.row(cups.length), NONE);
+    }
+
+    private static void promise16firstAtACatch() {
+        FlyingChange x = catching(0, 4, 3, 2);
+        sendAll(x, 0, 1, 2);
+        x.tick(2);
+        comeInTurn(x, "first, like stamps: by cup, from whatever child", 0, 1, 2);
+        FlyingChange y = catching(0, 2, 3, 4);
+        for (int cup = 2; cup >= 0; cup--) {
+            sendAll(y, cup);
+            y.tick(1);
+        }
+        y.tick(1);
+        comeInTurn(y, "first: the least stamp, though the cup is greater", 2, 1, 0);
+    }
+
+    private static void promise16nearAtACatch() {
+        FlyingChange x = catching(1, 4, 3, 2);
+        sendAll(x, 0, 1, 2);
+        x.tick(2);
+        comeInTurn(x, "near, like stamps: by child", 2, 1, 0);
+        FlyingChange y = catching(1, 2, 2, 2, 3);
+        for (int cup = 3; cup >= 0; cup--) {
+            sendAll(y, cup);
+            y.tick(1);
+        }
+        y.tick(1);
+        comeInTurn(y, "near: of one child the least stamp", 2, 1, 0, 3);
+    }
+
+    private static void promise16turnAtACatch() {
+        FlyingChange x = catching(2, 4, 3, 2, 4, 3, 2);
+        sendAll(x, 0, 1, 2, 3, 4, 5);
+        x.tick(3);
+        comeInTurn(x, "turn: from the least on, and round", 2, 1, 0, 5, 4, 3);
+        FlyingChange y = catching(2, 3, 3, 2, 2);
+        for (int cup = 3; cup >= 0; cup--) {
+            sendAll(y, cup);
+            y.tick(1);
+        }
+        y.tick(1);
+        comeInTurn(y, "turn: of one child the least stamp", 3, 1, 2, 0);
+    }
+
+    private static void promise16turnOfOneChild() {
+        FlyingChange x = catching(2, 3, 3, 3, 2, 4);
+        sendAll(x, 0, 1, 2);
+        x.tick(4);
+        x.cord(1, true);
+        x.tick(2);
+        sendAll(x, 3, 4);
+        x.tick(2);
+        Due.is("that one itself, if none else waits: three have come", x.row(1), 1);
+        x.tick(4);
+        int[] due = {0, 1, 2, 4, 3};
+        for (int i = 0; i < due.length; i++) {
+            Due.is("turn: row(" + i + ")", x.row(i), due[i]);
+        }
+        FlyingChange y = catching(2, 4, 4, 2, 3);
+        sendAll(y, 0);
+        y.tick(2);
+        y.cord(1, true);
+        y.tick(1);
+        y.cord(1, false);
+        sendAll(y, 1, 2, 3);
+        y.tick(2);
+        comeInTurn(y, "behind the last child the least, that one itself last", 0, 2, 3, 1);
+    }
+
+    private static void promise16turnOfANewChild() {
+        FlyingChange x = catching(2, 4, 2);
+        sendAll(x, 0);
+        x.tick(2);
+        x.cord(1, true);
+        x.tick(1);
+        x.cord(1, false);
+        Due.is("a new child", x.post(1, true, 1, 1, true), 5);
+        x.cup(5);
+        sendAll(x, 1, 2);
+        x.tick(2);
+        comeInTurn(x, "a new child is behind the last one", 0, 2, 1);
+    }
+
+    // ---- a worn catch
+
+    /** A JOINT 1 with COUNTERS 2, 3, 4 and a CUP of each; a way there and back takes 6 ticks. */
+    private static FlyingChange threeCounters() {
+        FlyingChange x = new FlyingChange();
+        x.post(0, false, 1, 1, true);
+        for (int i = 2; i <= 4; i++) {
+            x.post(1, true, 1, 1, true);
+            x.cup(i);
+        }
+        x.clerk(1);
+        return x;
+    }
+
+    /** A CUP is SENT, comes down where it is told, and is HOME again by a PORTER, if that is not its HOME. */
+    private static void goes(FlyingChange x, String when, int cup, int to) {
+        sendAll(x, cup);
+        x.tick(6);
+        int home = x.cupAt(cup, 5);
+        isAt(x, when, cup, to == home ? HOME : STRAY, to, NONE);
+        if (to != home) {
+            x.porter(cup);
+            x.tick(6);
+        }
+    }
+
+    private static void promise16wornByEach() {
+        for (int w = 2; w <= 9; w++) {
+            FlyingChange x = threeCounters();
+            goes(x, "ahead of it", 0, 2);
+            x.joint(1, 1, w);
+            for (int i = 1; i <= 3 * w + 1; i++) {
+                goes(x, "worn by " + w + ", cup " + i, 0, i % w == 0 ? 3 : 2);
+            }
+        }
+    }
+
+    private static void promise16wornAnew() {
+        int[][] told = {{3, 3}, {4, 3}, {9, 3}, {0, 3}, {2, 3}};
+        for (int[] t : told) {
+            FlyingChange x = threeCounters();
+            x.joint(1, 1, 3);
+            goes(x, "the first", 0, 2);
+            goes(x, "the second", 0, 2);
+            x.joint(1, 1, t[0]);
+            x.joint(1, 1, t[1]);
+            goes(x, "told " + t[0] + ", then 3: the first anew", 0, 2);
+            goes(x, "told " + t[0] + ", then 3: the second anew", 0, 2);
+            goes(x, "told " + t[0] + ", then 3: the third anew", 0, 3);
+        }
+        FlyingChange x = threeCounters();
+        x.joint(1, 1, 9);
+        for (int i = 1; i <= 8; i++) {
+            goes(x, "worn by 9", 0, 2);
+        }
+        x.joint(1, 1, 2);
+        goes(x, "worn by 2 behind 8: the first", 0, 2);
+        goes(x, "worn by 2 behind 8: the second", 0, 3);
+        x.joint(1, 1, 0);
+        for (int i = 1; i <= 9; i++) {
+            goes(x, "not worn", 0, 2);
+        }
+        x.joint(1, 1, 2);
+        goes(x, "not worn does not count: the first", 0, 2);
+        goes(x, "not worn does not count: the second", 0, 3);
+    }
+
+    private static void promise16wornNotAnew() {
+        FlyingChange x = threeCounters();
+        x.post(0, false, 1, 1, true);
+        x.joint(1, 1, 3);
+        goes(x, "the first", 0, 2);
+        x.joint(1, 0, 2);
+        x.joint(1, 2, 1);
+        x.joint(5, 1, 3);
+        goes(x, "a catch, silence and another joint begin nothing anew: the second", 0, 2);
+        x.joint(1, 1, 1);
+        x.joint(1, 1, 10);
+        x.joint(1, 1, -1);
+        x.joint(1, 3, 3);
+        x.post(1, true, 1, 1, true);
+        x.cord(1, false);
+        x.cord(1, true);
+        goes(x, "nor what is refused, nor a new child: the third", 0, 3);
+    }
+
+    private static void promise16wornNextChildByNumber() {
+        FlyingChange x = new FlyingChange();
+        x.post(0, false, 1, 1, true);
+        x.post(1, true, 1, 1, true);
+        x.post(0, true, 1, 1, true);
+        x.post(1, false, 1, 1, true);
+        x.post(0, true, 1, 1, true);
+        x.post(4, true, 1, 1, true);
+        x.post(1, true, 1, 1, true);
+        x.cup(2);
+        x.cup(6);
+        x.cup(7);
+        x.clerk(1);
+        x.joint(1, 1, 2);
+        goes(x, "the first", 0, 2);
+        sendAll(x, 1);
+        x.tick(8);
+        isAt(x, "behind the joint 4 is 7", 1, STRAY, 7, NONE);
+        goes(x, "the third", 2, 7);
+        goes(x, "behind 7 is the least, 2", 2, 2);
+        goes(x, "the fifth", 2, 7);
+        sendAll(x, 0);
+        x.tick(7);
+        isAt(x, "behind 2 is the joint 4, and so its child", 0, STRAY, 6, NONE);
+    }
+
+    /** JOINTS 1, and 2 on it, which COUNTERS 3, 4, 5 hang on; CUP 0 of COUNTER 6, on 1. */
+    private static FlyingChange wrongBranch() {
+        FlyingChange x = new FlyingChange();
+        x.post(0, false, 1, 1, true);
+        x.post(1, false, 1, 1, true);
+        x.post(2, true, 1, 1, true);
+        x.post(2, true, 1, 1, true);
+        x.post(2, true, 1, 1, true);
+        x.post(1, true, 1, 1, true);
+        x.cup(6);
+        x.clerk(1);
+        return x;
+    }
+
+    private static void promise16wornWithoutARightChild() {
+        FlyingChange x = wrongBranch();
+        x.joint(1, 1, 2);
+        x.joint(2, 1, 2);
+        for (int way = 1; way <= 4; way++) {
+            goes(x, "the right way", 0, 6);
+            sendAll(x, 0);
+            x.tick(7);
+            isAt(x, "thrown to 2: the least child, the second time that behind it", 0, STRAY, way % 2 == 0 ? 4 : 3, NONE);
+            x.porter(0);
+            x.tick(9);
+        }
+    }
+
+    private static void promise16jointWithoutChildren() {
+        FlyingChange x = new FlyingChange();
+        x.post(0, false, 1, 1, true);
+        x.post(1, true, 1, 1, true);
+        x.post(1, false, 1, 1, true);
+        x.cup(2);
+        x.clerk(1);
+        x.joint(1, 1, 2);
+        goes(x, "the first", 0, 2);
+        sendAll(x, 0);
+        x.tick(6);
+        isAt(x, "at a joint without children", 0, WAITING, 3, 12);
+        Due.is("it goes down", x.cupAt(0, 3), 0);
+        Due.is("for none", x.cupAt(0, 4), NONE);
+        x.tick(200);
+        isAt(x, "it waits", 0, WAITING, 3, 12);
+        Due.is("it rang there", x.bell(x.bells() - 1, false), 3);
+        Due.is("till a porter takes it", x.porter(0), 212 + 6);
+        x.tick(6);
+        isAt(x, "home", 0, HOME, 2, NONE);
+    }
+
+    // ---- clerks and sales
+
+    private static void promise16clerksNeed() {
+        for (int needs = 1; needs <= 30; needs++) {
+            FlyingChange x = oneWire(1, 1, true, 2);
+            x.clerk(needs);
+            sendAll(x, 0, 1);
+            x.tick(2);
+            isAt(x, "taken", 0, WITH_CLERK, 0, needs);
+            if (needs > 1) {
+                x.tick(needs - 1);
+                isAt(x, "a tick too early", 0, WITH_CLERK, 0, 1);
+            }
+            x.tick(1);
+            isAt(x, "done, and on its way", 0, ON_WIRE, 1, 0);
+            isAt(x, "the next is taken in that tick", 1, WITH_CLERK, 0, needs);
+        }
+    }
+
+    /** CUP 0 of 2 is STRAY at 3 with the SALE that is told; the CLERK needs 1 tick. */
+    private static FlyingChange strayWith(int price, int kind, int n) {
+        FlyingChange x = new FlyingChange();
+        x.post(0, false, 1, 1, true);
+        x.post(1, true, 1, 1, true);
+        x.post(1, true, 1, 1, true);
+        x.cup(2);
+        x.clerk(1);
+        sendAll(x, 0);
+        x.joint(1, 1, 2);
+        x.tick(6);
+        x.drawer(0, 2);
+        x.send(0, price, kind, n);
+        x.tick(6);
+        return x;
+    }
+
+    private static void promise16salesAreAskedOnce() {
+        FlyingChange x = strayWith(5, 2, 1);
+        isAt(x, "with its change", 0, STRAY, 3, NONE);
+        Due.is("answered", x.cupAt(0, 6), 2);
+        Due.is("its change", x.coins(0, 0), 1);
+        Due.is("the drawer", x.till(6), 7);
+        Due.is("resent", x.resend(0), 3);
+        x.tick(5);
+        isAt(x, "it has been with the clerk again", 0, ON_WIRE, 2, 0);
+        Due.is("answered still", x.cupAt(0, 6), 2);
+        Due.is("its change is in it", x.coins(0, 6), 1);
+        Due.is("the drawer is as it was", x.till(6), 7);
+        FlyingChange y = strayWith(1, 2, 1);
+        Due.is("refused", y.cupAt(0, 6), 3);
+        Due.is("what came is in it", y.coins(0, 2), 1);
+        y.drawer(0, 1000);
+        y.resend(0);
+        y.tick(5);
+        Due.is("refused still, though it could be given", y.cupAt(0, 6), 3);
+        Due.is("what came is in it still", y.coins(0, 2), 1);
+        Due.is("and all in the drawer", y.till(6), 1000);
+        y.tick(1);
+        isAt(y, "home", 0, HOME, 2, NONE);
+        Due.is("two are done with", y.waits(2, 0), 2);
+        Due.is("one is refused", y.waits(2, 1), 1);
+    }
+
+    private static void promise16changeOfNothing() {
+        FlyingChange x = oneWire(1, 1, true, 2);
+        x.clerk(1);
+        x.send(0, 60, 5, 1);
+        x.send(1, 59, 5, 1);
+        x.tick(3);
+        Due.is("no change is due: answered", x.cupAt(0, 6), 2);
+        Due.is("it is empty", x.coins(0, 6), 0);
+        Due.is("the drawer has it", x.till(5), 1);
+        x.tick(1);
+        Due.is("one is due, none is there: refused", x.cupAt(1, 6), 3);
+        Due.is("what came is in it", x.coins(1, 5), 1);
+        Due.is("the drawer has no more", x.till(5), 1);
+    }
+
+    private static void promise16fetchedForTheNext() {
+        for (int late = 0; late < 2; late++) {
+            FlyingChange x = oneWire(1, 1, true, 1);
+            x.clerk(5);
+            x.send(0, 2, 1, 1);
+            x.fetch(0, 1, 6 + late);
+            x.tick(7);
+            Due.is("there a tick ahead of him, or at his tick", x.cupAt(0, 6), late == 0 ? 2 : 3);
+            Due.is("of ones in the drawer", x.till(0), late);
+        }
+    }
+
+    // ---- porters
+
+    /** JOINT 1 (LENGTH 2); COUNTERS 2 (3), 3 (5) and JOINT 4 (7) on it, COUNTER 5 (11) on that; CUP 0 of 2. */
+    private static FlyingChange lengths() {
+        FlyingChange x = new FlyingChange();
+        x.post(0, false, 2, 1, true);
+        x.post(1, true, 3, 1, true);
+        x.post(1, true, 5, 1, true);
+        x.post(1, false, 7, 1, true);
+        x.post(4, true, 11, 1, true);
+        x.cup(2);
+        x.cup(3);
+        x.clerk(1);
+        return x;
+    }
+
+    private static void isBrought(FlyingChange x, String when, int cup, int ticks) {
+        int from = x.total(2);
+        Due.is(when, x.porter(cup), from + ticks);
+        if (ticks > 1) {
+            x.tick(ticks - 1);
+            isAt(x, when + ", a tick too early", cup, WITH_PORTER, NONE, from + ticks);
+        }
+        x.tick(1);
+        isAt(x, when + ", there", cup, HOME, x.cupAt(cup, 5), NONE);
+    }
+
+    private static void promise13porterWays() {
+        FlyingChange x = lengths();
+        sendAll(x, 0);
+        x.tick(1);
+        x.cord(2, false);
+        isBrought(x, "on its own wire", 0, 1);
+        x.cord(2, true);
+        sendAll(x, 0);
+        x.tick(4);
+        x.cord(1, false);
+        isBrought(x, "on wire 1, up: 3 of length", 0, 9);
+        x.cord(1, true);
+        sendAll(x, 0);
+        x.tick(7);
+        x.cord(1, false);
+        Due.is("on wire 1, down", x.cupAt(0, 3), 0);
+        isBrought(x, "on wire 1, down: 3 of length", 0, 9);
+        x.cord(1, true);
+        sendAll(x, 0);
+        x.tick(11);
+        x.cord(2, false);
+        Due.is("on its own wire, down", x.cupAt(0, 3), 0);
+        isBrought(x, "on its own wire, down", 0, 1);
+        FlyingChange y = thrown(0, 10);
+        y.cord(3, false);
+        isBrought(y, "on wire 3: 5 and 3 of length", 0, 24);
+        y = thrown(0, 30);
+        isBrought(y, "stray at 3: 5 and 3 of length", 0, 24);
+        y = thrown(1, 12);
+        y.cord(4, false);
+        isBrought(y, "on wire 4: 7 and 5 of length", 1, 36);
+        y = thrown(1, 22);
+        y.cord(5, false);
+        isBrought(y, "on wire 5: 11 and 7 and 5 of length", 1, 69);
+        y = thrown(1, 60);
+        isBrought(y, "stray at 5: 11 and 7 and 5 of length", 1, 69);
+    }
+
+    /** A CUP that JOINT 1 has thrown the wrong way, so many ticks after it was SENT. */
+    private static FlyingChange thrown(int cup, int ticks) {
+        FlyingChange x = lengths();
+        sendAll(x, cup);
+        x.tick(20);
+        x.joint(1, 1, 2);
+        sendAll(x, cup);
+        x.tick(20);
+        sendAll(x, cup);
+        x.tick(ticks);
+        return x;
+    }
+
+    private static void promise13porterTakesNoOther() {
+        FlyingChange x = lengths();
+        Due.is("home", x.porter(0), STATE);
+        sendAll(x, 0);
+        x.cord(2, false);
+        Due.is("waiting at its home, for a broken wire", x.porter(0), STATE);
+        x.cord(2, true);
+        x.tick(1);
+        Due.is("on a whole wire", x.porter(0), STATE);
+        x.cord(1, false);
+        Due.is("on a whole wire, while another is broken", x.porter(0), STATE);
+        x.tick(3);
+        isAt(x, "at the joint", 0, WAITING, 1, 4);
+        Due.is("waiting at a joint to go up, for a broken wire", x.porter(0), STATE);
+        x.cord(1, true);
+        x.tick(3);
+        isAt(x, "with the clerk", 0, WITH_CLERK, 0, 1);
+        x.cord(1, false);
+        Due.is("with a clerk", x.porter(0), STATE);
+        x.tick(1);
+        isAt(x, "in the cage", 0, WAITING, 0, 8);
+        Due.is("waiting in the cage, for a broken wire", x.porter(0), STATE);
+        x.cord(1, true);
+        x.cord(2, false);
+        x.tick(3);
+        isAt(x, "at the joint again", 0, WAITING, 1, 11);
+        Due.is("waiting at a joint to go down, for a broken wire", x.porter(0), STATE);
+        x.cord(2, true);
+        x.tick(1);
+        Due.is("on a whole wire down", x.porter(0), STATE);
+        x.cord(2, false);
+        Due.is("on a broken wire", x.porter(0), 13);
+        Due.is("with a porter", x.porter(0), STATE);
+        FlyingChange y = oneWire(1, 1, true, 1);
+        sendAll(y, 0);
+        y.tick(3);
+        isAt(y, "in the row", 0, IN_ROW, NONE, 2);
+        Due.is("in the row", y.porter(0), STATE);
+        y.cord(1, false);
+        Due.is("in the row, while the wire is broken", y.porter(0), STATE);
+    }
+
+    private static void promise13porterIsThere() {
+        FlyingChange x = oneWire(4, 1, false, 1);
+        x.send(0, 5, 2, 1);
+        x.tick(2);
+        x.cord(1, false);
+        x.porter(0);
+        Due.is("its coins are in it", x.coins(0, 6), 6);
+        Due.is("its sale is open", x.cupAt(0, 6), 1);
+        x.cord(1, true);
+        x.tick(1);
+        Due.is("its coins are handed out", x.coins(0, 6), 0);
+        Due.is("to its counter", x.waits(1, 4), 6);
+        Due.is("its sale is done with", x.waits(1, 0), 1);
+        Due.is("it has none", x.cupAt(0, 6), 0);
+        Due.is("its wait", x.waits(1, 2), 3);
+        Due.is("it may be sent at once", x.send(0, 6, 2, 1), 0);
+    }
+
+    // ---- change
+
+    private static void areGiven(FlyingChange x, int amount, int... due) {
+        int sum = 0;
+        for (int kind = 0; kind < due.length; kind++) {
+            Due.is("gives(" + amount + ", " + kind + ")", x.gives(amount, kind), due[kind]);
+            sum += due[kind];
+        }
+        Due.is("could(" + amount + ")", x.could(amount), sum);
+    }
+
+    private static FlyingChange drawerOf(int... coins) {
+        FlyingChange x = new FlyingChange();
+        for (int kind = 0; kind < coins.length; kind++) {
+            x.drawer(kind, coins[kind]);
+        }
+        return x;
+    }
+
+    private static void promise21likeChange() {
+        areGiven(drawerOf(0, 2, 0, 3, 1, 0), 36, 0, 2, 0, 0, 1, 0);
+        areGiven(drawerOf(0, 2, 0, 3, 1, 1), 96, 0, 2, 0, 0, 1, 1);
+        areGiven(drawerOf(0, 2, 0, 4, 1, 0), 48, 0, 2, 0, 1, 1, 0);
+        areGiven(drawerOf(3, 1, 0, 4, 1, 0), 48, 0, 0, 0, 4, 0, 0);
+        areGiven(drawerOf(0, 0, 0, 5, 1, 0), 60, 0, 0, 0, 5, 0, 0);
+        areGiven(drawerOf(0, 0, 0, 5, 2, 0), 60, 0, 0, 0, 0, 2, 0);
+        areGiven(drawerOf(0, 0, 0, 5, 2, 1), 60, 0, 0, 0, 0, 0, 1);
+        areGiven(drawerOf(0, 0, 0, 3, 1, 1), 66, 0, 0, 0, 3, 1, 0);
+        areGiven(drawerOf(0, 2, 0, 3, 1, 1), 66, 0, 2, 0, 0, 0, 1);
+        areGiven(drawerOf(1000, 1000, 1000, 1000, 1000, 0), 3000, 0, 0, 0, 0, 100, 0);
+        areGiven(drawerOf(1000, 1000, 0, 0, 0, 0), 3000, 0, 1000, 0, 0, 0, 0);
+        areGiven(drawerOf(1000, 667, 0, 0, 0, 0), 3000, 999, 667, 0, 0, 0, 0);
+        Due.is("one less", drawerOf(998, 667, 0, 0, 0, 0).could(3000), NONE);
+        Due.is("just so many", drawerOf(999, 667, 0, 0, 0, 0).could(3000), 1666);
+    }
+
+    // ---- waits and orders
+
+    private static void promise23greatestWait() {
+        FlyingChange x = oneWire(1, 1, true, 2);
+        Due.is("none is done with", x.waits(1, 2), NONE);
+        x.clerk(1);
+        sendAll(x, 0);
+        x.tick(3);
+        Due.is("a tick ahead, none", x.waits(1, 2), NONE);
+        Due.is("a tick ahead, together", x.waits(1, 3), 0);
+        x.tick(1);
+        Due.is("the first", x.waits(1, 2), 4);
+        sendAll(x, 0, 1);
+        x.tick(5);
+        Due.is("the greater", x.waits(1, 2), 5);
+        Due.is("together", x.waits(1, 3), 13);
+        sendAll(x, 0);
+        x.tick(4);
+        Due.is("a lesser one", x.waits(1, 2), 5);
+        Due.is("together with it", x.waits(1, 3), 17);
+        Due.is("four are done with", x.waits(1, 0), 4);
+    }
+
+    private static void promise24leastClerk() {
+        FlyingChange x = oneWire(1, 1, true, 2);
+        sendAll(x, 0, 1);
+        x.tick(9);
+        x.clerk(5);
+        x.clerk(3);
+        Due.is("of like ones the least clerk: 9 + 5, 9 + 3", x.worst(), 14);
+        Due.is("by cups", x.best(0), 0);
+        FlyingChange y = oneWire(1, 1, true, 2);
+        y.clerk(4);
+        sendAll(y, 0);
+        y.tick(3);
+        sendAll(y, 1);
+        y.tick(2);
+        y.clerk(9);
+        Due.is("he has one for a tick more", y.clerkAt(0, 1), 1);
+        Due.is("the idle one is free at once: 2 + 9, though the other would be sooner", y.worst(), 11);
+        FlyingChange z = oneWire(1, 1, true, 1);
+        z.clerk(30);
+        sendAll(z, 0);
+        z.tick(2);
+        Due.is("none is in the row, all with clerks", z.worst(), NONE);
+    }
+
+    // ---- bells
+
+    private static void promise33ringsOnceForEach() {
+        FlyingChange x = threeCounters();
+        sendAll(x, 0, 1, 2);
+        x.tick(2);
+        Due.is("once for each of three", x.bells(), 3);
+        for (int i = 0; i < 3; i++) {
+            Due.is("of joint 1", x.bell(i, false), 1);
+            Due.is("at 2", x.bell(i, true), 2);
+        }
+        x.tick(20);
+        Due.is("and on their ways down", x.bells(), 6);
+        x.joint(1, 2, 1);
+        sendAll(x, 0, 1, 2);
+        x.tick(20);
+        Due.is("silent", x.bells(), 6);
+        x.joint(1, 2, 0);
+        sendAll(x, 0);
+        x.tick(2);
+        Due.is("not silent", x.bells(), 7);
+        x.joint(1, 2, 1);
+        x.tick(20);
+        Due.is("silent on its way down", x.bells(), 7);
+    }
+
+    /** JOINT 1 (LENGTH 3) with COUNTERS 2 (LENGTH 4) and 3 (LENGTH 1); CUP 1 of 3 rings at a TICK, CUP 0 of 2 does not come. */
+    private static FlyingChange rungAt(int tick, int sentAt) {
+        FlyingChange x = new FlyingChange();
+        x.post(0, false, 3, 1, true);
+        x.post(1, true, 4, 1, true);
+        x.post(1, true, 1, 1, true);
+        x.cup(2);
+        x.cup(3);
+        x.cord(2, false);
+        for (int t = 0; t < tick; t++) {
+            if (t == sentAt) {
+                x.send(0, 1, 0, 1);
+            }
+            if (t == tick - 2) {
+                x.send(1, 1, 0, 1);
+            }
+            x.tick(1);
+        }
+        Due.is("it rang", x.bell(0, true), tick);
+        return x;
+    }
+
+    private static void promise35leastTicks() {
+        for (int rings = 2; rings <= 9; rings++) {
+            for (int sentAt = 0; sentAt < 2; sentAt++) {
+                FlyingChange x = rungAt(rings, sentAt);
+                boolean may = rings >= sentAt + 4;
+                Due.is("sent at " + sentAt + ", it rang at " + rings + ": mayBe(0)", x.mayBe(0), may ? 1 : 0);
+                x.tick(2);
+                Due.is("2 ticks later: mayBe(0)", x.mayBe(0), may ? 1 : 0);
+                x.tick(1);
+                Due.is("3 ticks later: mayBe(0)", x.mayBe(0), may ? 2 : 0);
+            }
+        }
+    }
+
+    private static void promise35noneBehindTheTick() {
+        FlyingChange x = new FlyingChange();
+        x.post(0, false, 3, 1, true);
+        x.post(1, false, 5, 1, true);
+        x.post(2, true, 4, 1, true);
+        x.cup(3);
+        x.cord(3, false);
+        x.joint(1, 2, 1);
+        x.joint(2, 2, 1);
+        x.send(0, 1, 0, 1);
+        for (int t = 0; t < 15; t++) {
+            Due.is("all are silent, at " + t + ": mayBe(0)", x.mayBe(0), t < 4 ? 0 : t < 9 ? 1 : t < 12 ? 2 : 3);
+            x.tick(1);
+        }
+        x.joint(1, 2, 0);
+        Due.is("1 did not ring", x.mayBe(0), 1);
+        x.joint(2, 2, 0);
+        Due.is("2 did not ring", x.mayBe(0), 0);
+        FlyingChange y = oneWire(3, 1, true, 1);
+        y.cord(1, false);
+        sendAll(y, 0);
+        for (int t = 0; t < 5; t++) {
+            Due.is("there is no joint, at " + t + ": mayBe(0)", y.mayBe(0), t < 3 ? 0 : 1);
+            y.tick(1);
+        }
+    }
+}
