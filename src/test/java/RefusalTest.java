@@ -103,6 +103,10 @@ public final class RefusalTest {
         Due.is("busy: total(2)", x.total(2), 169);
         Due.is("busy: cup 1 waits for none", x.cupAt(1, 4), NONE);
         Due.is("busy: the clerk's ticks", x.clerkAt(0, 1), 1);
+        Due.is("busy: all are not home but two", x.total(3), 13);
+        Due.is("busy: on a broken wire, up", x.on(5, true), 1);
+        Due.is("busy: on a broken wire, down", x.on(5, false), 0);
+        Due.is("busy: with a porter, on no wire", x.on(1, true) + x.on(1, false) + x.on(2, true) + x.on(2, false), 1);
     }
 
     /** 16 POSTS, 24 CUPS, 4 CLERKS, 20 that were fetched; all CUPS of COUNTERS 2 .. 13 have been sent, those of 14 not. */
@@ -451,24 +455,30 @@ public final class RefusalTest {
 
     /** What is only looked at changes nothing either. */
     private static void looked(FlyingChange x) {
-        told(x);
+        told(x, 0);
     }
 
     private static void changesNothing(String what, Shop shop, Deed asked) {
         for (int later = 0; later < 4; later++) {
-            FlyingChange x = shop.made();
-            FlyingChange twin = shop.made();
-            asked.to(x);
-            goOn(x, later);
-            goOn(twin, later);
-            List<Integer> got = told(x);
-            List<Integer> due = told(twin);
-            got.addAll(wasTold(x));
-            due.addAll(wasTold(twin));
-            Due.is(what + ", later " + later + ": as many are told", got.size(), due.size());
-            for (int i = 0; i < Math.min(got.size(), due.size()); i++) {
-                Due.is(what + " refused, later " + later + ": answer " + i, got.get(i), due.get(i));
-            }
+            areTwins(what + " refused, later " + later, shop, asked, later, 0, 1, 2, 4, 6);
+            areTwins(what + " refused, later " + later, shop, asked, later, 0, 3, 5, 7, 8);
+        }
+    }
+
+    /** No object tells all at once, as it would be called too often. */
+    private static void areTwins(String when, Shop shop, Deed asked, int later, int... ofCups) {
+        FlyingChange x = shop.made();
+        FlyingChange twin = shop.made();
+        asked.to(x);
+        goOn(x, later);
+        goOn(twin, later);
+        List<Integer> got = told(x, ofCups);
+        List<Integer> due = told(twin, ofCups);
+        got.addAll(wasTold(x));
+        due.addAll(wasTold(twin));
+        Due.is(when + ": as many are told", got.size(), due.size());
+        for (int i = 0; i < Math.min(got.size(), due.size()); i++) {
+            Due.is(when + ": answer " + i, got.get(i), due.get(i));
         }
     }
 
@@ -490,7 +500,7 @@ public final class RefusalTest {
     }
 
     /** What a shop tells of all that is in it. */
-    private static List<Integer> told(FlyingChange x) {
+    private static List<Integer> told(FlyingChange x, int... ofCups) {
         List<Integer> all = new ArrayList<>();
         int posts = x.total(0);
         int cups = x.total(1);
@@ -498,7 +508,7 @@ public final class RefusalTest {
             all.add(x.total(what));
         }
         for (int cup = 0; cup < cups; cup++) {
-            for (int what : new int[] {0, 1, 2, 4, 6}) {
+            for (int what : ofCups) {
                 all.add(x.cupAt(cup, what));
             }
             all.add(x.coins(cup, 6));

@@ -12,10 +12,14 @@ public final class RuleTest {
         promise16standingCups();
         promise16standingCupsTheOtherWay();
         promise16gapBehindACupThatIsGone();
+        promise16onlyOneMayOnASingleWire();
+        promise16ticksOneByOne();
         promise16firstAtACatch();
         promise16nearAtACatch();
         promise16turnAtACatch();
         promise16turnOfOneChild();
+        promise16cameFromIsNotHome();
+        promise16turnBehindOtherCatches();
         promise16turnOfANewChild();
         promise16wornByEach();
         promise16wornAnew();
@@ -35,6 +39,7 @@ public final class RuleTest {
         promise24leastClerk();
         promise33ringsOnceForEach();
         promise35leastTicks();
+        promise35whereverItIs();
         promise35noneBehindTheTick();
         Due.end();
     }
@@ -238,6 +243,80 @@ public final class RuleTest {
         }
     }
 
+    /** A CUP goes down at the TICK told last, another one has been SENT the TICK ahead; a third follows down, or up. */
+    private static void promise16onlyOneMayOnASingleWire() {
+        FlyingChange x = oneWire(20, 1, false, 3);
+        x.clerk(1);
+        sendAll(x, 0);
+        x.tick(21);
+        sendAll(x, 1);
+        x.cord(1, false);
+        x.tick(1);
+        isAt(x, "it is done, and waits for the broken wire", 0, WAITING, 0, 22);
+        x.cord(1, true);
+        x.tick(1);
+        isAt(x, "the lesser stamp goes up", 1, ON_WIRE, 1, 0);
+        sendAll(x, 2);
+        x.tick(1);
+        isAt(x, "the greater stamp goes up, as the lesser may not go down", 2, ON_WIRE, 1, 0);
+        isAt(x, "the lesser stamp waits", 0, WAITING, 0, 22);
+        x.tick(19);
+        isAt(x, "the wire is not empty", 0, WAITING, 0, 22);
+        x.tick(1);
+        isAt(x, "the wire is empty", 0, ON_WIRE, 1, 0);
+        FlyingChange y = bothDone(20, 2, false);
+        y.cup(1);
+        sendAll(y, 2);
+        y.tick(1);
+        isAt(y, "none may go: up", 2, WAITING, 1, 63);
+        isAt(y, "none may go: down", 1, WAITING, 0, 63);
+        y.tick(1);
+        isAt(y, "of like stamps that which goes down, as the other may not go up", 1, ON_WIRE, 1, 0);
+        isAt(y, "that which would go up", 2, WAITING, 1, 63);
+        y.tick(19);
+        isAt(y, "the wire is not empty", 2, WAITING, 1, 63);
+        y.tick(1);
+        isAt(y, "the wire is empty, and the gap is long ago", 2, ON_WIRE, 1, 0);
+    }
+
+    private static void promise16ticksOneByOne() {
+        FlyingChange x = oneByOne();
+        FlyingChange y = oneByOne();
+        x.tick(60);
+        for (int i = 0; i < 60; i++) {
+            y.tick(1);
+        }
+        for (int cup = 0; cup < 5; cup++) {
+            for (int what = 0; what <= 8; what++) {
+                Due.is("60 at once: cupAt(" + cup + ", " + what + ")", x.cupAt(cup, what), y.cupAt(cup, what));
+            }
+        }
+        for (int what = 0; what <= 7; what++) {
+            Due.is("60 at once: total(" + what + ")", x.total(what), y.total(what));
+        }
+        int bells = y.bells();
+        Due.is("60 at once: bells()", x.bells(), bells);
+        for (int i = 0; i < bells; i++) {
+            Due.is("60 at once: bell(" + i + ", true)", x.bell(i, true), y.bell(i, true));
+        }
+    }
+
+    private static FlyingChange oneByOne() {
+        FlyingChange x = new FlyingChange();
+        x.post(0, false, 3, 2, false);
+        x.post(1, true, 4, 3, true);
+        x.post(1, true, 2, 1, false);
+        x.joint(1, 1, 2);
+        x.joint(1, 0, 2);
+        for (int i = 0; i < 5; i++) {
+            x.cup(2 + i % 2);
+            x.send(i, 1 + i, 2, 1);
+        }
+        x.clerk(3);
+        x.fetch(0, 9, 30);
+        return x;
+    }
+
     // ---- a catch
 
     /** A JOINT 1 with COUNTERS 2, 3, 4; WIRE 1 is BROKEN, all are of LENGTH 1. */
@@ -329,6 +408,56 @@ public final class RuleTest {
         sendAll(y, 1, 2, 3);
         y.tick(2);
         comeInTurn(y, "behind the last child the least, that one itself last", 0, 2, 3, 1);
+    }
+
+    /** CUP 0 of 2 is STRAY at 4, is RESENT, and waits at 1 behind CUP 1 of 4; that from 5 went UP last. */
+    private static void promise16cameFromIsNotHome() {
+        for (int latch = 0; latch < 3; latch++) {
+            FlyingChange x = new FlyingChange();
+            x.post(0, false, 1, 1, true);
+            x.post(1, true, 1, 1, true);
+            x.post(0, true, 1, 1, true);
+            x.post(1, true, 1, 1, true);
+            x.post(1, true, 1, 1, true);
+            x.cup(2);
+            x.cup(4);
+            x.clerk(1);
+            x.joint(1, 1, 2);
+            goes(x, "the first", 0, 2);
+            sendAll(x, 0);
+            x.tick(6);
+            isAt(x, "the second", 0, STRAY, 4, NONE);
+            x.joint(1, 1, 0);
+            x.cup(5);
+            x.joint(1, 0, latch);
+            sendAll(x, 2);
+            x.tick(2);
+            x.cord(1, false);
+            sendAll(x, 1);
+            x.tick(1);
+            x.resend(0);
+            x.tick(3);
+            isAt(x, "resent", 0, WAITING, 1, x.total(2) - 1);
+            x.cord(1, true);
+            x.tick(1);
+            isAt(x, "of one child the least stamp, by catch " + latch, 1, ON_WIRE, 1, 0);
+            isAt(x, "its home is no child from which it came", 0, WAITING, 1, x.total(2) - 2);
+        }
+    }
+
+    private static void promise16turnBehindOtherCatches() {
+        for (int latch = 0; latch < 2; latch++) {
+            FlyingChange x = catching(latch, 2, 2, 3, 4);
+            sendAll(x, 0);
+            x.tick(2);
+            x.cord(1, true);
+            x.tick(1);
+            x.cord(1, false);
+            x.joint(1, 0, 2);
+            sendAll(x, 1, 2, 3);
+            x.tick(2);
+            comeInTurn(x, "a cup went up last from 2, by catch " + latch, 0, 2, 3, 1);
+        }
     }
 
     private static void promise16turnOfANewChild() {
@@ -842,6 +971,14 @@ public final class RuleTest {
         x.joint(1, 2, 1);
         x.tick(20);
         Due.is("silent on its way down", x.bells(), 7);
+        x.joint(1, 2, 0);
+        sendAll(x, 0);
+        x.tick(1);
+        x.cord(2, false);
+        x.porter(0);
+        x.tick(1);
+        isAt(x, "a porter has brought it", 0, HOME, 2, NONE);
+        Due.is("a porter rings none", x.bells(), 7);
     }
 
     /** JOINT 1 (LENGTH 3) with COUNTERS 2 (LENGTH 4) and 3 (LENGTH 1); CUP 1 of 3 rings at a TICK, CUP 0 of 2 does not come. */
@@ -878,6 +1015,20 @@ public final class RuleTest {
                 Due.is("3 ticks later: mayBe(0)", x.mayBe(0), may ? 2 : 0);
             }
         }
+    }
+
+    private static void promise35whereverItIs() {
+        FlyingChange x = strayWith(5, 2, 1);
+        isAt(x, "a stray", 0, STRAY, 3, NONE);
+        Due.is("a stray: mayBe(0)", x.mayBe(0), 2);
+        x.porter(0);
+        Due.is("with a porter: mayBe(0)", x.mayBe(0), 2);
+        x.tick(6);
+        Due.is("home: mayBe(0)", x.mayBe(0), STATE);
+        sendAll(x, 0);
+        Due.is("sent anew: mayBe(0)", x.mayBe(0), 0);
+        x.tick(2);
+        Due.is("it rang anew: mayBe(0)", x.mayBe(0), 1);
     }
 
     private static void promise35noneBehindTheTick() {

@@ -11,6 +11,7 @@ public final class RushTest {
         promise30wanted();
         promise31vital();
         promise32loss();
+        promise28toPromise32ofBrokenWires();
         Due.end();
     }
 
@@ -153,5 +154,19 @@ public final class RushTest {
         Due.is("of -1", x.loss(-1, 2), UNKNOWN);
         Due.is("loss(1, 6)", x.loss(1, 6), OUTSIDE);
         Due.is("loss(1, -1)", x.loss(1, -1), OUTSIDE);
+    }
+
+    private static void promise28toPromise32ofBrokenWires() {
+        FlyingChange x = shop();
+        x.rush(4, 2, 200);
+        for (int wire = 1; wire <= 5; wire++) {
+            x.cord(wire, false);
+        }
+        Due.is("broken: load(1, 2)", x.load(1, 2), 200);
+        Due.is("broken: loss(4, 2)", x.loss(4, 2), 4 * 200 * 9);
+        Due.is("broken: vital(2)", x.vital(2), 4);
+        Due.is("broken: lines(4)", x.lines(4), 2);
+        Due.is("broken: wanted()", x.wanted(), 2 * 3 + 5 + 2 + 2 * 9 + 1);
+        Due.is("broken: rush(4, 2, 0), was", x.rush(4, 2, 0), 200);
     }
 }
