@@ -21,6 +21,7 @@ public final class FullTest {
         promise33theThreeHundredthBell();
         promise33threeHundredAtOneTick();
         promise35bellsThatAreGone();
+        fiveHundredAndTwelveCalls();
         Due.end();
     }
 
@@ -443,5 +444,41 @@ public final class FullTest {
         x.tick(1);
         Due.is("it is gone", x.mayBe(0), 0);
         Due.is("the oldest is another's", x.bell(0, false), 1);
+    }
+
+    private static void fiveHundredAndTwelveCalls() {
+        FlyingChange x = new FlyingChange();
+        for (int i = 1; i < 512; i++) {
+            Due.is("call " + i + ": tick(1)", x.tick(1), i);
+        }
+        Due.is("call 512: total(2)", x.total(2), 511);
+        FlyingChange y = rowOf(6);
+        y.clerk(7);
+        y.drawer(3, 3);
+        y.drawer(4, 1);
+        int calls = 1 + 2 * 6 + 1 + 3;
+        for (; calls + 4 <= 512; calls += 4) {
+            Due.is("behind call " + calls + ": worst()", y.worst(), 7 + 42);
+            Due.is("behind call " + calls + ": best(5)", y.best(5), 5);
+            Due.is("behind call " + calls + ": worstBy(2)", y.worstBy(2), 7 + 42);
+            Due.is("behind call " + calls + ": could(36)", y.could(36), 3);
+        }
+        FlyingChange z = oneWayAndBack();
+        for (int way = 0; way < 253; way++) {
+            Due.is("way " + way + ": send", z.send(0, 1, 0, 1), 0);
+            Due.is("way " + way + ": tick", z.tick(4), 4 * way + 4);
+        }
+        Due.is("253 are done with", z.waits(1, 0), 253);
+        Due.is("all waits together", z.waits(1, 3), 4 * 253);
+        Due.is("all lie in the drawer", z.till(0), 253);
+    }
+
+    /** Three calls; a CUP is HOME again 4 ticks after it was SENT. */
+    private static FlyingChange oneWayAndBack() {
+        FlyingChange x = new FlyingChange();
+        x.post(0, true, 1, 1, true);
+        x.cup(1);
+        x.clerk(1);
+        return x;
     }
 }
