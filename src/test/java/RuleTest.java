@@ -35,6 +35,7 @@ public final class RuleTest {
         promise13porterTakesNoOther();
         promise13porterIsThere();
         promise21likeChange();
+        promise20couldOfEachAmount();
         promise23greatestWait();
         promise24leastClerk();
         promise33ringsOnceForEach();
@@ -896,8 +897,46 @@ public final class RuleTest {
         areGiven(drawerOf(1000, 1000, 1000, 1000, 1000, 0), 3000, 0, 0, 0, 0, 100, 0);
         areGiven(drawerOf(1000, 1000, 0, 0, 0, 0), 3000, 0, 1000, 0, 0, 0, 0);
         areGiven(drawerOf(1000, 667, 0, 0, 0, 0), 3000, 999, 667, 0, 0, 0, 0);
+        Due.is("36 lie there beside a 30, and 6 can't be given", drawerOf(0, 0, 0, 3, 1, 0).could(6), NONE);
+        Due.is("nor 6 beside a 60", drawerOf(0, 0, 0, 3, 1, 1).could(6), NONE);
+        Due.is("nor 66 less 60", drawerOf(0, 0, 0, 3, 1, 0).gives(6, 5), NONE);
         Due.is("one less", drawerOf(998, 667, 0, 0, 0, 0).could(3000), NONE);
         Due.is("just so many", drawerOf(999, 667, 0, 0, 0, 0).could(3000), 1666);
+    }
+
+    private static final int[] WORTH = {1, 3, 6, 12, 30, 60};
+
+    /** The fewest coins, of like ones by the most of the greatest KIND: all counts are tried, from the most on. */
+    private static int[] fewest(int[] lying, int amount, int kind) {
+        if (kind < 0) {
+            return amount == 0 ? new int[7] : null;
+        }
+        int[] best = null;
+        for (int n = Math.min(lying[kind], amount / WORTH[kind]); n >= 0; n--) {
+            int[] rest = fewest(lying, amount - n * WORTH[kind], kind - 1);
+            if (rest != null && (best == null || rest[6] + n < best[6])) {
+                best = rest;
+                best[kind] = n;
+                best[6] += n;
+            }
+        }
+        return best;
+    }
+
+    private static void promise20couldOfEachAmount() {
+        int[][] drawers = {{0, 0, 0, 3, 1, 0}, {0, 0, 0, 3, 1, 1}, {0, 0, 0, 7, 3, 2}, {2, 2, 2, 2, 2, 2}, {5, 0, 1, 4, 1, 0},
+            {0, 2, 0, 9, 1, 1}, {1, 0, 3, 0, 2, 1}, {0, 0, 5, 0, 1, 2}, {9, 1, 0, 0, 3, 1}, {0, 0, 0, 0, 0, 3}};
+        for (int[] lying : drawers) {
+            FlyingChange x = drawerOf(lying);
+            FlyingChange y = drawerOf(lying);
+            for (int amount = 0; amount <= 240; amount++) {
+                int[] due = fewest(lying, amount, 5);
+                Due.is("could(" + amount + ")", x.could(amount), due == null ? NONE : due[6]);
+                int kind = 3 + amount % 3;
+                Due.is("gives(" + amount + ", " + kind + ")", x.gives(amount, kind), due == null ? NONE : due[kind]);
+                Due.is("gives(" + amount + ", " + (kind - 3) + ")", y.gives(amount, kind - 3), due == null ? NONE : due[kind - 3]);
+            }
+        }
     }
 
     // ---- waits and orders
