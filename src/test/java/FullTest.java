@@ -7,8 +7,11 @@ public final class FullTest {
         promise1emptyShop();
         promise2sixteenPosts();
         promise2sixteenOnOneWay();
+        promise2theSixteenthPost();
         promise6twentyFourCups();
+        promise6theTwentyFourthCup();
         promise7fourClerks();
+        promise7theFourthClerk();
         promise9drawerIsNeverFull();
         promise10twentyFetched();
         promise10twentyOfManyTicks();
@@ -132,6 +135,84 @@ public final class FullTest {
         Due.is("none is home", x.total(3), 24);
     }
 
+    /** JOINT 14 with COUNTER 15 alone on it; COUNTERS 1 .. 13 on THE CAGE; JOINT 14 is the last of its CHILDREN. */
+    private static void promise2theSixteenthPost() {
+        FlyingChange x = new FlyingChange();
+        for (int i = 1; i <= 15; i++) {
+            x.post(i == 15 ? 14 : 0, i != 14, 1, 1, true);
+        }
+        x.cup(15);
+        x.clerk(1);
+        x.joint(14, 1, 2);
+        for (int way = 1; way <= 2; way++) {
+            x.send(0, 1, 0, 1);
+            x.tick(2);
+            Due.is("on the wire of the joint, by the catch of its last child", x.cupAt(0, 1), 14);
+            x.tick(4);
+            Due.is("home by the joint's only child, way " + way, x.cupAt(0, 1), 15);
+            Due.is("home, way " + way, x.cupAt(0, 0), 0);
+        }
+        x.rush(15, 4, 3);
+        Due.is("of 14 and 15 the least is vital", x.vital(4), 14);
+        Due.is("loss of 15", x.loss(15, 4), 12);
+        FlyingChange y = new FlyingChange();
+        y.post(0, false, 1, 1, true);
+        for (int i = 2; i <= 15; i++) {
+            y.post(1, true, i == 15 ? 2 : 1, 1, true);
+        }
+        y.cup(14);
+        y.clerk(1);
+        y.joint(1, 1, 2);
+        y.send(0, 1, 0, 1);
+        y.tick(6);
+        Due.is("the first is home", y.cupAt(0, 0), 0);
+        y.send(0, 1, 0, 1);
+        y.tick(7);
+        Due.is("the second is stray at the last post", y.cupAt(0, 0), 5);
+        Due.is("the second is stray at the last post", y.cupAt(0, 1), 15);
+        y.rush(15, 2, 10);
+        y.rush(14, 2, 10);
+        Due.is("the last wire is vital for itself, and less than the joint's", y.vital(2), 1);
+        FlyingChange z = new FlyingChange();
+        for (int i = 1; i <= 15; i++) {
+            z.post(0, true, 1, 1, true);
+        }
+        z.rush(15, 0, 300);
+        z.rush(14, 0, 299);
+        Due.is("the last wire is vital", z.vital(0), 15);
+        z.rush(15, 1, 300);
+        Due.is("it wants a line", z.lines(15), 1);
+        Due.is("fifteen lines", z.wanted(), 15);
+    }
+
+    private static void promise6theTwentyFourthCup() {
+        FlyingChange x = new FlyingChange();
+        x.post(0, true, 3, 1, true);
+        for (int i = 0; i < 24; i++) {
+            x.cup(1);
+        }
+        Due.is("sent", x.send(23, 7, 3, 1), 5);
+        Due.is("what is in it", x.total(7), 12);
+        Due.is("it is not home", x.total(3), 1);
+        x.tick(1);
+        Due.is("it is on the wire", x.on(1, true), 1);
+        x.tick(3);
+        Due.is("it stands in the row", x.row(0), 23);
+        x.clerk(1);
+        x.tick(1);
+        Due.is("the clerk takes it", x.clerkAt(0, 0), 23);
+        x.tick(1);
+        Due.is("it goes down", x.on(1, false), 1);
+        x.cord(1, false);
+        Due.is("a porter", x.porter(23), 7);
+        Due.is("he takes it from the wire", x.on(1, false), 0);
+        x.tick(1);
+        Due.is("home", x.cupAt(23, 0), 0);
+        Due.is("its wait", x.waits(1, 2), 7);
+        Due.is("all are home", x.total(3), 0);
+        Due.is("nothing is in it", x.total(7), 0);
+    }
+
     private static void promise7fourClerks() {
         FlyingChange x = new FlyingChange();
         for (int i = 0; i < 3; i++) {
@@ -145,6 +226,28 @@ public final class FullTest {
             Due.is("the ticks of " + i, x.clerkAt(i, 2), i == 3 ? 1 : 30 - i);
         }
         Due.is("there is no other", x.clerkAt(4, 2), UNKNOWN);
+    }
+
+    private static void promise7theFourthClerk() {
+        FlyingChange x = rowOf(6);
+        for (int i = 0; i < 3; i++) {
+            x.clerk(20);
+        }
+        x.clerk(2);
+        Due.is("done in 20, 20, 20, 2, 4, 6", x.worst(), 7 + 20);
+        Due.is("as they stand", x.worstBy(0), 7 + 20);
+        x.tick(1);
+        for (int i = 0; i < 4; i++) {
+            Due.is("each has one: " + i, x.clerkAt(i, 0), i);
+        }
+        Due.is("two are left: done in 4, 6 by the fourth", x.worst(), 8 + 6);
+        Due.is("by the order too", x.worstBy(2), 8 + 6);
+        x.tick(2);
+        Due.is("the fourth is done", x.cupAt(3, 0), 2);
+        Due.is("and takes the next", x.clerkAt(3, 0), 4);
+        x.tick(18);
+        Due.is("he has had all", x.row(0), NONE);
+        Due.is("the first is done by then", x.clerkAt(0, 0), NONE);
     }
 
     private static void promise9drawerIsNeverFull() {

@@ -1,6 +1,5 @@
 import java.lang.reflect.Constructor;
 import java.lang.reflect.Field;
-import java.lang.reflect.Member;
 import java.lang.reflect.Method;
 import java.lang.reflect.Modifier;
 import java.nio.file.Files;
@@ -11,8 +10,10 @@ import java.util.TreeSet;
 import java.util.regex.Matcher;
 import java.util.regex.Pattern;
 
-/** The face of the class, and what of ../shared/LANGUAGE.md can be seen by looking for it. */
+/** The face of the class, and the rules of ../shared/LANGUAGE.md that can be looked for. */
 public final class LanguageTest {
+    private static final Path SOURCE = Path.of("src/main/java/FlyingChange.java");
+    private static final Set<String> CONSTANTS = Set.of("UNKNOWN", "OUTSIDE", "STATE", "FULL", "NONE");
     private static final String FACE = """
         post(int, boolean, int, int, boolean) joint(int, int, int) about(int, int) cord(int, boolean) cup(int)
         clerk(int) order(int) drawer(int, int) fetch(int, int, int) send(int, int, int, int) resend(int) porter(int)
@@ -22,9 +23,10 @@ public final class LanguageTest {
 
     public static void main(String[] args) throws Exception {
         constants();
-        face();
-        nested();
-        source();
+        calls();
+        members();
+        signs();
+        new Rules(SOURCE).areKept();
         Due.end();
     }
 
@@ -41,83 +43,47 @@ public final class LanguageTest {
         return m.getName() + "(" + types.substring(1, types.length() - 1) + ")";
     }
 
-    private static void face() {
-        Set<String> found = new TreeSet<>();
+    private static void calls() {
+        Set<String> due = new TreeSet<>();
         Set<String> names = new TreeSet<>();
+        Matcher call = Pattern.compile("(\\w+)\\([^)]*\\)").matcher(FACE);
+        while (call.find()) {
+            due.add(call.group());
+            names.add(call.group(1));
+        }
+        Set<String> found = new TreeSet<>();
         for (Method m : FlyingChange.class.getDeclaredMethods()) {
             if (Modifier.isPublic(m.getModifiers())) {
                 found.add(told(m));
-                names.add(m.getName());
                 Due.holds(m.getName() + " answers an int", m.getReturnType() == int.class);
                 Due.holds(m.getName() + " is of an object", !Modifier.isStatic(m.getModifiers()));
+            } else if (!m.isSynthetic()) {
+                Due.holds(m.getName() + " is of the face or private", Modifier.isPrivate(m.getModifiers()));
+                Due.holds(m.getName() + " bears no name of the face", !names.contains(m.getName()));
             }
         }
-        Set<String> due = new TreeSet<>();
-        Matcher call = Pattern.compile("\\w+\\([^)]*\\)").matcher(FACE);
-        while (call.find()) {
-            due.add(call.group());
-        }
         Due.holds("the face is " + due + " and not " + found, found.equals(due));
-        for (Method m : FlyingChange.class.getDeclaredMethods()) {
-            boolean hidden = Modifier.isPrivate(m.getModifiers()) || m.isSynthetic();
-            Due.holds(m.getName() + " is of the face or private", hidden || due.contains(told(m)));
-            Due.holds(m.getName() + " bears no name of the face", !Modifier.isPrivate(m.getModifiers()) || !names.contains(m.getName()));
-        }
+    }
+
+    private static void members() {
         for (Field f : FlyingChange.class.getDeclaredFields()) {
-            boolean constant = Set.of("UNKNOWN", "OUTSIDE", "STATE", "FULL", "NONE").contains(f.getName());
-            Due.holds(f.getName() + " is of the face or private", constant == Modifier.isPublic(f.getModifiers())
-                && (constant || Modifier.isPrivate(f.getModifiers())));
+            boolean constant = CONSTANTS.contains(f.getName());
+            Due.holds(f.getName() + " is of the face or private",
+                constant ? Modifier.isPublic(f.getModifiers()) : Modifier.isPrivate(f.getModifiers()) || f.isSynthetic());
         }
         Constructor<?>[] made = FlyingChange.class.getDeclaredConstructors();
         Due.holds("one public constructor", made.length == 1 && Modifier.isPublic(made[0].getModifiers())
             && made[0].getParameterCount() == 0);
         Due.holds("the class is public and final", FlyingChange.class.getModifiers() == (Modifier.PUBLIC | Modifier.FINAL));
-    }
-
-    private static boolean isFixed(Member f) {
-        return !Modifier.isStatic(f.getModifiers()) || Modifier.isFinal(f.getModifiers());
-    }
-
-    private static void nested() {
-        Class<?>[] inside = FlyingChange.class.getDeclaredClasses();
-        Due.holds("at most twelve classes", inside.length + 1 <= 12);
-        for (Class<?> c : inside) {
+        Due.holds("it extends nothing", FlyingChange.class.getSuperclass() == Object.class);
+        Due.holds("it has no package", FlyingChange.class.getPackageName().isEmpty());
+        for (Class<?> c : FlyingChange.class.getDeclaredClasses()) {
             Due.holds(c.getName() + " is static", Modifier.isStatic(c.getModifiers()));
-            Due.holds(c.getName() + " is not of the face", !Modifier.isPublic(c.getModifiers()));
-            for (Field f : c.getDeclaredFields()) {
-                Due.holds(c.getName() + "." + f.getName() + " is no other static state", isFixed(f));
-            }
-        }
-        for (Field f : FlyingChange.class.getDeclaredFields()) {
-            Due.holds(f.getName() + " is no other static state", isFixed(f));
+            Due.holds(c.getName() + " is not of the face", (c.getModifiers() & (Modifier.PUBLIC | Modifier.PROTECTED)) == 0);
         }
     }
 
-    private static void source() throws Exception {
-        String text = Files.readString(Path.of("src/main/java/FlyingChange.java"));
-        String code = text.replaceAll("(?s)/\\*.*?\\*/", "").replaceAll("//[^\n]*", "");
-        String[] ruledOut = {"\\bthrows?\\b", "\\btry\\b", "\\bcatch\\b", "\\bsynchronized\\b", "\\bassert\\b", "\\bpackage\\b",
-            "\\bimport (?!java\\.util\\.)", "\n(?! *(case|default)\\b)[^\n]*->", "::", "Exact\\b", "\\bprotected\\b",
-            "\\bstatic \\{", "\\bhashCode\\b", "\\btoString\\b", "while \\(true\\)", "MAX_VALUE", "MIN_VALUE"};
-        for (String r : ruledOut) {
-            Due.holds("the code is without " + r, !Pattern.compile(r).matcher(code).find());
-        }
-        Due.holds("signs 1 to 127", text.chars().allMatch(c -> c < 128));
-        String[] lines = code.split("\n");
-        for (int i = 0; i < lines.length; i++) {
-            if (lines[i].matches("( {4}| {8})[\\w.\\[\\] ]+\\(.*\\) \\{") && !lines[i].contains(" if ")) {
-                isShort(lines, i);
-            }
-        }
-    }
-
-    private static void isShort(String[] lines, int from) {
-        String end = lines[from].replaceAll("\\S.*", "") + "}";
-        int to = from;
-        while (to < lines.length && !lines[to].equals(end)) {
-            to++;
-        }
-        Due.holds("some sixty lines: " + lines[from], to - from <= 60);
-        Due.holds("at most seven parameters: " + lines[from], lines[from].split(",").length <= 7);
+    private static void signs() throws Exception {
+        Due.holds("signs 1 to 127", Files.readString(SOURCE).chars().allMatch(c -> c >= 1 && c <= 127));
     }
 }

@@ -204,7 +204,7 @@ public final class ModelTest {
             case 11 -> call("on", anyPost(), lot.nextBoolean());
             case 12 -> call("waits", lot.nextInt(4) > 0 ? any(counters) : anyPost(), around(0, 4));
             case 13 -> call("worst");
-            case 14 -> call("best", around(0, 5));
+            case 14 -> lookAtBest();
             case 15 -> call("worstBy", around(0, 2));
             case 16 -> call("load", anyPost(), around(0, 5));
             case 17 -> lookAtRush();
@@ -213,6 +213,12 @@ public final class ModelTest {
             case 20 -> call("mayBe", anyCup());
             default -> call("total", around(0, 7));
         }
+    }
+
+    /** The document leaves open what is told of a place that is not there while more than 6 are in THE ROW. */
+    private void lookAtBest() throws Exception {
+        boolean tooMany = model.row(6) != FlyingChange.NONE;
+        call("best", tooMany ? upTo(5) : around(0, 5));
     }
 
     private void lookAtRush() throws Exception {
