@@ -50,7 +50,7 @@ public final class NextTest {
 
     private static void sendAll(FlyingChange x, int... cups) {
         for (int c : cups) {
-            x.send(c, 1, 0, 1);
+            x.send(c, 60, 5, 1);
         }
     }
 

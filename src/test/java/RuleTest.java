@@ -32,6 +32,8 @@ public final class RuleTest {
         promise16changeOfNothing();
         promise16fetchedForTheNext();
         promise13porterWays();
+        promise13porterToADeepHome();
+        promise13porterTurnsAtALowJoint();
         promise13porterTakesNoOther();
         promise13porterIsThere();
         promise21likeChange();
@@ -803,6 +805,85 @@ public final class RuleTest {
         sendAll(x, cup);
         x.tick(ticks);
         return x;
+    }
+
+    /**
+     * JOINTS 1 (LENGTH 2), and 2 (3) and 3 (7) on it; COUNTERS 4 (5) on 2, 5 (11) on 3 and 6 (13) on 1. A CUP of 4 or 6
+     * was SENT so many ticks ago, and JOINT 1 throws it the wrong way, or not.
+     */
+    private static FlyingChange deep(int home, boolean wrong, int ticks) {
+        FlyingChange x = new FlyingChange();
+        x.post(0, false, 2, 1, true);
+        x.post(1, false, 3, 1, true);
+        x.post(1, false, 7, 1, true);
+        x.post(2, true, 5, 1, true);
+        x.post(3, true, 11, 1, true);
+        x.post(1, true, 13, 1, true);
+        x.cup(home);
+        x.clerk(1);
+        if (wrong) {
+            x.joint(1, 1, 2);
+        }
+        sendAll(x, 0);
+        x.tick(60);
+        isAt(x, "the first goes the right way", 0, HOME, home, NONE);
+        sendAll(x, 0);
+        x.tick(ticks);
+        return x;
+    }
+
+    private static void isBroughtFrom(FlyingChange x, int wire, boolean up, int ticks) {
+        isAt(x, "on wire " + wire, 0, ON_WIRE, wire, x.cupAt(0, 2));
+        Due.is("on wire " + wire + ", up", x.cupAt(0, 3), up ? 1 : 0);
+        x.cord(wire, false);
+        isBrought(x, "from wire " + wire, 0, ticks);
+    }
+
+    private static void promise13porterToADeepHome() {
+        isBroughtFrom(deep(4, false, 5), 4, true, 1);
+        isBroughtFrom(deep(4, false, 7), 2, true, 15);
+        isBroughtFrom(deep(4, false, 10), 1, true, 24);
+        isBroughtFrom(deep(4, false, 13), 1, false, 24);
+        isBroughtFrom(deep(4, false, 15), 2, false, 15);
+        isBroughtFrom(deep(4, false, 20), 4, false, 1);
+        isBroughtFrom(deep(4, true, 15), 3, false, 45);
+        isBroughtFrom(deep(4, true, 25), 5, false, 78);
+        isBroughtFrom(deep(6, true, 20), 2, false, 48);
+        isBroughtFrom(deep(6, true, 24), 4, false, 63);
+        FlyingChange x = deep(4, true, 50);
+        isAt(x, "a stray", 0, STRAY, 5, NONE);
+        isBrought(x, "a stray at 5", 0, 78);
+        FlyingChange y = deep(6, true, 50);
+        isAt(y, "a stray", 0, STRAY, 4, NONE);
+        isBrought(y, "a stray at 4", 0, 63);
+    }
+
+    /** COUNTERS 1, 2, 3; JOINT 4 (LENGTH 9), JOINT 5 (7) on it, and on that COUNTERS 6 (2) and 7 (5), JOINT 8 (3), COUNTER 9 (1). */
+    private static void promise13porterTurnsAtALowJoint() {
+        int[] stands = {7, 9};
+        int[] ticks = {3 * (5 + 2), 3 * (1 + 3 + 5)};
+        for (int i = 0; i < 2; i++) {
+            FlyingChange x = new FlyingChange();
+            for (int post = 1; post <= 3; post++) {
+                x.post(0, true, 1, 1, true);
+            }
+            x.post(0, false, 9, 1, true);
+            x.post(4, false, 7, 1, true);
+            x.post(5, true, 2, 1, true);
+            x.post(5, true, 5, 1, true);
+            x.post(5, false, 3, 1, true);
+            x.post(8, true, 1, 1, true);
+            x.cup(6 + i);
+            x.clerk(1);
+            x.joint(5, 1, 2);
+            sendAll(x, 0);
+            x.tick(60);
+            isAt(x, "the first goes the right way", 0, HOME, 6 + i, NONE);
+            sendAll(x, 0);
+            x.tick(60);
+            isAt(x, "the second does not", 0, STRAY, stands[i], NONE);
+            isBrought(x, "by joint 5, and no nearer to the cage", 0, ticks[i]);
+        }
     }
 
     private static void promise13porterTakesNoOther() {
