@@ -83,7 +83,7 @@ public final class ReadmeTest {
     private static void testsAreRunAsItIsWritten(String page, Path folder) throws Exception {
         List<String> commands = blocks(page, "sh");
         Due.is("commands: of the example, of all tests, of one test", commands.size(), 3);
-        Due.holds(".ci/run runs all tests", commands.get(1).equals(".ci/run\n") && Files.isExecutable(Path.of(".ci/run")));
+        Due.holds(".ci/run runs all tests", commands.get(1).equals(".ci/run\n") && Files.exists(Path.of(".ci/run")));
         String text = printed(folder, commands.get(2));
         Due.holds("both tests pass: " + text, text.matches("(?s)\\d+ answers are as due\\R300 answers are as due\\R"));
     }
