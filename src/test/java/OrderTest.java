@@ -12,6 +12,7 @@ public final class OrderTest {
         promise25best();
         promise25bestByCups();
         promise25bestOfSix();
+        promise25allOrders();
         promise26worstBy();
         promise26workingClerks();
         Due.end();
@@ -176,6 +177,104 @@ public final class OrderTest {
         y.clerk(1);
         Due.is("done in 1 .. 6", y.worst(), 21);
         isBest(y, "the oldest first", 0, 1, 2, 3, 4, 5);
+    }
+
+    /** The greatest WAIT and all together, if CUPS are taken in an order: each by him who is free first, of like ones the least. */
+    private static int[] waitsOf(int[] order, int[] waited, int[] left, int[] needs) {
+        int[] free = left.clone();
+        int[] waits = new int[2];
+        for (int cup : order) {
+            int clerk = 0;
+            for (int k = 1; k < free.length; k++) {
+                clerk = free[k] < free[clerk] ? k : clerk;
+            }
+            free[clerk] += needs[clerk];
+            waits[0] = Math.max(waits[0], waited[cup] + free[clerk]);
+            waits[1] += waited[cup] + free[clerk];
+        }
+        return waits;
+    }
+
+    /** Goes on with an order that has so many places, by CUPS, and keeps the first best one. */
+    private static void allOrders(int[] order, int place, int[] best, int[] waited, int[] left, int[] needs) {
+        if (place == order.length) {
+            int[] is = waitsOf(order, waited, left, needs);
+            int[] was = waitsOf(best, waited, left, needs);
+            if (is[0] < was[0] || is[0] == was[0] && is[1] < was[1]) {
+                System.arraycopy(order, 0, best, 0, place);
+            }
+            return;
+        }
+        for (int cup = 0; cup < order.length; cup++) {
+            boolean taken = false;
+            for (int i = 0; i < place; i++) {
+                taken |= order[i] == cup;
+            }
+            if (!taken) {
+                order[place] = cup;
+                allOrders(order, place + 1, best, waited, left, needs);
+            }
+        }
+    }
+
+    private static void isBestOfAll(FlyingChange x, String when, int cups, int clerks) {
+        int[] waited = new int[cups];
+        int[] inTurn = new int[cups];
+        int first = x.total(1) - cups;
+        for (int i = 0; i < cups; i++) {
+            waited[i] = x.total(2) - x.cupAt(first + i, 8);
+            inTurn[i] = i;
+        }
+        int[] left = new int[clerks];
+        int[] needs = new int[clerks];
+        for (int k = 0; k < clerks; k++) {
+            left[k] = x.clerkAt(k, 1);
+            needs[k] = x.clerkAt(k, 2);
+        }
+        int[] best = inTurn.clone();
+        allOrders(new int[cups], 0, best, waited, left, needs);
+        Due.is(when + ": worst()", x.worst(), waitsOf(best, waited, left, needs)[0]);
+        for (int i = 0; i < cups; i++) {
+            Due.is(when + ": best(" + i + ")", x.best(i), first + best[i]);
+        }
+        for (int rule = 0; rule <= 2; rule++) {
+            x.order(rule);
+            for (int i = 0; i < cups; i++) {
+                inTurn[i] = x.row(i) - first;
+            }
+            Due.is(when + ": worstBy(" + rule + ")", x.worstBy(rule), waitsOf(inTurn, waited, left, needs)[0]);
+        }
+    }
+
+    /** Rows of 1 to 6, with 1 to 4 CLERKS, who are idle or have one of the CUPS that were there first. */
+    private static void promise25allOrders() {
+        int lot = 7;
+        for (int cups = 1; cups <= 6; cups++) {
+            for (int clerks = 1; clerks <= 4; clerks++) {
+                for (int busy = 0; busy <= clerks; busy += 1 + clerks % 2) {
+                    int[] homes = new int[busy + cups];
+                    int[] sent = new int[busy + cups];
+                    for (int i = 0; i < busy + cups; i++) {
+                        lot = (lot * 25 + 13) % 1009;
+                        homes[i] = 1 + lot % 3;
+                        sent[i] = i < busy ? 0 : 1 + lot % 14;
+                    }
+                    FlyingChange x = row(homes, sent);
+                    for (int k = 0; k < clerks; k++) {
+                        lot = (lot * 25 + 13) % 1009;
+                        x.clerk(4 + lot % 11);
+                        if (k == busy - 1) {
+                            x.order(1);
+                            x.tick(1);
+                        }
+                    }
+                    String when = cups + " in the row, " + clerks + " clerks, " + busy + " of them busy";
+                    Due.holds(when + ": all are there", x.row(cups - 1) >= busy);
+                    Due.is(when + ": no more", x.row(cups), NONE);
+                    isBestOfAll(x, when, cups, clerks);
+                }
+            }
+        }
     }
 
     private static void promise26worstBy() {
