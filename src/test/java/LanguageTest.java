@@ -9,6 +9,7 @@ import java.util.Set;
 import java.util.TreeSet;
 import java.util.regex.Matcher;
 import java.util.regex.Pattern;
+import javax.tools.ToolProvider;
 
 /** The face of the class, and the rules of ../shared/LANGUAGE.md that can be looked for. */
 public final class LanguageTest {
@@ -26,8 +27,17 @@ public final class LanguageTest {
         calls();
         members();
         signs();
-        new Rules(SOURCE).areKept();
+        rules();
         Due.end();
+    }
+
+    /** A java that comes without a compiler can't read the source; javac has looked at it all the same. */
+    private static void rules() throws Exception {
+        if (ToolProvider.getSystemJavaCompiler() == null) {
+            System.out.println("there is no compiler in this java: the rules of LANGUAGE.md were not looked for");
+            return;
+        }
+        new Rules(SOURCE).areKept();
     }
 
     private static void constants() {
