@@ -21,9 +21,11 @@ public final class RuleTest {
         promise16cameFromIsNotHome();
         promise16turnBehindOtherCatches();
         promise16turnOfANewChild();
+        promise16turnOfEachJoint();
         promise16wornByEach();
         promise16wornAnew();
         promise16wornNotAnew();
+        promise16toldWhileOneIsOnTheWire();
         promise16wornNextChildByNumber();
         promise16wornWithoutARightChild();
         promise16jointWithoutChildren();
@@ -31,6 +33,7 @@ public final class RuleTest {
         promise16salesAreAskedOnce();
         promise16changeOfNothing();
         promise16fetchedForTheNext();
+        promise16fetchedInAnyOrder();
         promise13porterWays();
         promise13porterToADeepHome();
         promise13porterTurnsAtALowJoint();
@@ -38,12 +41,14 @@ public final class RuleTest {
         promise13porterIsThere();
         promise21likeChange();
         promise20couldOfEachAmount();
+        promise20couldOfTheDrawerAlone();
         promise23greatestWait();
         promise24leastClerk();
         promise33ringsOnceForEach();
         promise35leastTicks();
         promise35whereverItIs();
         promise35noneBehindTheTick();
+        promise35silentJointIsNotHeard();
         Due.end();
     }
 
@@ -477,6 +482,31 @@ public final class RuleTest {
         comeInTurn(x, "a new child is behind the last one", 0, 2, 1);
     }
 
+    /** JOINTS 1 and 2 on THE CAGE, with COUNTERS 3, 4, 5 on 1 and 6, 7, 8 on 2; CUPS 0 .. 5 of these. */
+    private static void promise16turnOfEachJoint() {
+        FlyingChange x = new FlyingChange();
+        for (int post = 1; post <= 8; post++) {
+            x.post(post < 3 ? 0 : post < 6 ? 1 : 2, post >= 3, post < 3 ? 9 : 1, 1, true);
+        }
+        for (int cup = 0; cup < 6; cup++) {
+            x.cup(3 + cup);
+        }
+        x.joint(1, 0, 2);
+        x.joint(2, 0, 2);
+        sendAll(x, 1);
+        x.tick(1);
+        sendAll(x, 5);
+        x.tick(2);
+        isAt(x, "from 4 at 1", 1, ON_WIRE, 1, 1);
+        isAt(x, "then from 8 at 2", 5, ON_WIRE, 2, 0);
+        sendAll(x, 0, 2, 3, 4);
+        x.tick(2);
+        isAt(x, "behind 4 is 5", 2, ON_WIRE, 1, 0);
+        isAt(x, "and 3 waits", 0, WAITING, 1, 5);
+        isAt(x, "behind 8 is 6", 3, ON_WIRE, 2, 0);
+        isAt(x, "and 7 waits", 4, WAITING, 2, 5);
+    }
+
     // ---- a worn catch
 
     /** A JOINT 1 with COUNTERS 2, 3, 4 and a CUP of each; a way there and back takes 6 ticks. */
@@ -561,6 +591,35 @@ public final class RuleTest {
         x.cord(1, false);
         x.cord(1, true);
         goes(x, "nor what is refused, nor a new child: the third", 0, 3);
+    }
+
+    private static void promise16toldWhileOneIsOnTheWire() {
+        FlyingChange x = threeCounters();
+        x.post(0, true, 1, 1, true);
+        sendAll(x, 0);
+        x.tick(4);
+        isAt(x, "on its way down", 0, ON_WIRE, 1, 0);
+        x.joint(1, 1, 2);
+        x.joint(1, 2, 1);
+        x.tick(2);
+        isAt(x, "the first that comes", 0, HOME, 2, NONE);
+        Due.is("silent when it came", x.bells(), 1);
+        sendAll(x, 0);
+        x.tick(4);
+        isAt(x, "on its way down again", 0, ON_WIRE, 1, 0);
+        x.joint(1, 2, 0);
+        x.tick(1);
+        isAt(x, "the second that comes", 0, ON_WIRE, 3, 0);
+        Due.is("not silent when it came", x.bells(), 2);
+        FlyingChange y = threeCounters();
+        y.joint(1, 1, 2);
+        goes(y, "the first", 0, 2);
+        sendAll(y, 0);
+        y.tick(4);
+        isAt(y, "on its way down", 0, ON_WIRE, 1, 0);
+        y.joint(1, 1, 0);
+        y.tick(2);
+        isAt(y, "not worn when it came", 0, HOME, 2, NONE);
     }
 
     private static void promise16wornNextChildByNumber() {
@@ -726,6 +785,27 @@ public final class RuleTest {
             x.tick(7);
             Due.is("there a tick ahead of him, or at his tick", x.cupAt(0, 6), late == 0 ? 2 : 3);
             Due.is("of ones in the drawer", x.till(0), late);
+        }
+    }
+
+    private static void promise16fetchedInAnyOrder() {
+        int[][] dues = {{1, 2, 1}, {2, 1, 2}, {1, 3, 2, 1, 3, 2}, {3, 1, 3, 2, 2, 1}, {2, 2, 1, 1, 3, 3}};
+        for (int[] due : dues) {
+            FlyingChange x = new FlyingChange();
+            int[] kinds = new int[6];
+            for (int i = 0; i < due.length; i++) {
+                Due.is("fetch " + i, x.fetch(i, 10 + i, due[i]), due[i]);
+            }
+            for (int t = 1; t <= 4; t++) {
+                x.tick(1);
+                for (int i = 0; i < due.length; i++) {
+                    kinds[i] += due[i] == t ? 10 + i : 0;
+                    Due.is("at " + t + ": till(" + i + ")", x.till(i), kinds[i]);
+                }
+            }
+            for (int i = 0; i < 20; i++) {
+                Due.is("all are there, so that 20 may be fetched", x.fetch(0, 1, 1), 5);
+            }
         }
     }
 
@@ -1020,6 +1100,27 @@ public final class RuleTest {
         }
     }
 
+    private static void promise20couldOfTheDrawerAlone() {
+        FlyingChange x = oneWire(1, 1, true, 2);
+        x.drawer(1, 2);
+        x.fetch(2, 1, 9);
+        x.send(0, 1, 0, 4);
+        x.send(1, 1, 3, 1);
+        for (int t = 0; t < 6; t++) {
+            Due.is("nothing of a cup, nor what is fetched, at " + t, x.could(6), 2);
+            Due.is("they are of kind 1", x.gives(6, 1), 2);
+            Due.is("no ones", x.could(7), NONE);
+            Due.is("no ones to give", x.gives(1, 0), NONE);
+            Due.is("in the drawer", x.till(6), 6);
+            if (t == 2) {
+                x.clerk(30);
+                x.clerk(30);
+            }
+            x.tick(1);
+        }
+        isAt(x, "with a clerk", 0, WITH_CLERK, 0, 27);
+    }
+
     // ---- waits and orders
 
     private static void promise23greatestWait() {
@@ -1176,5 +1277,37 @@ public final class RuleTest {
             Due.is("there is no joint, at " + t + ": mayBe(0)", y.mayBe(0), t < 3 ? 0 : 1);
             y.tick(1);
         }
+    }
+
+    /** JOINT 1, at LENGTH 1 of CUP 0's HOME and 4 of THE CAGE, rings at each of 2 .. 11 for another CUP. */
+    private static void promise35silentJointIsNotHeard() {
+        FlyingChange x = new FlyingChange();
+        x.post(0, false, 4, 1, true);
+        x.post(1, true, 1, 1, true);
+        x.post(1, true, 1, 1, true);
+        x.cup(2);
+        for (int cup = 1; cup <= 10; cup++) {
+            x.cup(3);
+        }
+        x.cord(2, false);
+        x.tick(3);
+        sendAll(x, 0);
+        for (int cup = 1; cup <= 10; cup++) {
+            sendAll(x, cup);
+        }
+        x.joint(1, 2, 1);
+        x.tick(3);
+        Due.is("silent: no bells", x.bells(), 0);
+        x.joint(1, 2, 0);
+        x.tick(2);
+        Due.is("two bells", x.bells(), 2);
+        Due.is("heard at 7, so not yet at the cage", x.mayBe(0), 1);
+        x.joint(1, 2, 1);
+        Due.is("silent now: it may have come at 4, and to the cage at 8", x.mayBe(0), 2);
+        x.joint(1, 2, 0);
+        x.tick(2);
+        Due.is("heard at 7: not to the cage at 10", x.mayBe(0), 1);
+        x.tick(1);
+        Due.is("heard at 7: to the cage at 11", x.mayBe(0), 2);
     }
 }
