@@ -61,7 +61,8 @@ public final class ReadmeTest {
     }
 
     private static String printed(Path folder, String commands) throws Exception {
-        Process p = new ProcessBuilder("sh", "-e", "-c", commands).directory(folder.toFile()).redirectErrorStream(true).start();
+        ProcessBuilder shell = new ProcessBuilder("sh", "-e", "-c", commands).directory(folder.toFile());
+        Process p = shell.redirectError(ProcessBuilder.Redirect.INHERIT).start();
         String text = new String(p.getInputStream().readAllBytes());
         int code = p.waitFor();
         if (code != 0) {
