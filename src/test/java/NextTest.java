@@ -7,6 +7,7 @@ public final class NextTest {
         promise16firstOfLikeStamps();
         promise16oldestOfLikeOnes();
         promise16nearIsTheLeastHome();
+        promise16stampOfTheFirstTick();
         promise16turnWaitsForTheGap();
         promise16turnIsWhereItCameFrom();
         promise16turnOfTheWayDown();
@@ -131,6 +132,24 @@ public final class NextTest {
             x.cup(home);
         }
         return x;
+    }
+
+    private static void promise16stampOfTheFirstTick() {
+        for (int[] cups : new int[][] {{3, 2, 1}, {1, 2, 3}, {2, 1, 3}}) {
+            FlyingChange x = twoCounters(1, 1);
+            x.cup(1);
+            x.cup(1);
+            x.cord(1, false);
+            for (int cup : cups) {
+                sendAll(x, cup);
+                x.tick(1);
+            }
+            x.cord(1, true);
+            goOnInTurn(x, "stamps 0, 1, 2", 1, cups);
+            x.tick(1);
+            x.order(1);
+            isRow(x, "sent at 0, 1, 2", cups);
+        }
     }
 
     private static void promise16turnWaitsForTheGap() {

@@ -29,6 +29,8 @@ public final class RuleTest {
         promise16wornNextChildByNumber();
         promise16wornWithoutARightChild();
         promise16jointWithoutChildren();
+        promise16leastChildIsAJoint();
+        promise16rightChildOfADeepHome();
         promise16clerksNeed();
         promise16salesAreAskedOnce();
         promise16changeOfNothing();
@@ -49,6 +51,7 @@ public final class RuleTest {
         promise35whereverItIs();
         promise35noneBehindTheTick();
         promise35silentJointIsNotHeard();
+        promise35lateBellOfAHighJoint();
         Due.end();
     }
 
@@ -698,6 +701,65 @@ public final class RuleTest {
         isAt(x, "home", 0, HOME, 2, NONE);
     }
 
+    /** JOINT 2 on JOINT 1, with JOINT 3 and COUNTER 4 on it; COUNTER 5 on 3; COUNTER 6 on 1. */
+    private static void promise16leastChildIsAJoint() {
+        FlyingChange x = new FlyingChange();
+        x.post(0, false, 1, 1, true);
+        x.post(1, false, 1, 1, true);
+        x.post(2, false, 1, 1, true);
+        x.post(2, true, 1, 1, true);
+        x.post(3, true, 1, 1, true);
+        x.post(1, true, 1, 1, true);
+        x.cup(6);
+        x.clerk(1);
+        x.joint(1, 1, 2);
+        goes(x, "the first", 0, 6);
+        sendAll(x, 0);
+        x.tick(8);
+        isAt(x, "thrown to 2, to its least child 3, to that one's least child 5", 0, STRAY, 5, NONE);
+        x.porter(0);
+        x.tick(20);
+        x.joint(1, 1, 2);
+        x.joint(2, 1, 2);
+        goes(x, "the first", 0, 6);
+        sendAll(x, 0);
+        x.tick(8);
+        isAt(x, "the first at 2", 0, STRAY, 5, NONE);
+        x.porter(0);
+        x.tick(20);
+        goes(x, "the third", 0, 6);
+        sendAll(x, 0);
+        x.tick(7);
+        isAt(x, "the second at 2: behind the joint 3 is 4", 0, STRAY, 4, NONE);
+    }
+
+    /** JOINTS 1, 3, 5, 7, one below the other, each with a COUNTER of a lesser number on it: 2, 4, 6, 8; COUNTER 9 on 7. */
+    private static void promise16rightChildOfADeepHome() {
+        FlyingChange x = new FlyingChange();
+        x.post(0, false, 1, 1, true);
+        for (int joint = 1; joint <= 5; joint += 2) {
+            x.post(joint, true, 1, 1, true);
+            x.post(joint, false, 1, 1, true);
+        }
+        x.post(7, true, 1, 1, true);
+        x.post(7, true, 1, 1, true);
+        x.cup(9);
+        x.clerk(1);
+        sendAll(x, 0);
+        for (int wire : new int[] {9, 7, 5, 3, 1}) {
+            x.tick(1);
+            isAt(x, "up", 0, ON_WIRE, wire, 0);
+        }
+        x.tick(1);
+        isAt(x, "in the cage", 0, WITH_CLERK, 0, 1);
+        for (int wire : new int[] {1, 3, 5, 7, 9}) {
+            x.tick(1);
+            isAt(x, "down to its home, and to no lesser child", 0, ON_WIRE, wire, 0);
+        }
+        x.tick(1);
+        isAt(x, "home", 0, HOME, 9, NONE);
+    }
+
     // ---- clerks and sales
 
     private static void promise16clerksNeed() {
@@ -1309,5 +1371,34 @@ public final class RuleTest {
         Due.is("heard at 7: not to the cage at 10", x.mayBe(0), 1);
         x.tick(1);
         Due.is("heard at 7: to the cage at 11", x.mayBe(0), 2);
+    }
+
+    /** JOINT 1 (LENGTH 5) rings late for another CUP; JOINT 2 (LENGTH 2) on it rang early for CUP 0 of 3, which stands behind it. */
+    private static void promise35lateBellOfAHighJoint() {
+        FlyingChange x = new FlyingChange();
+        x.post(0, false, 5, 1, true);
+        x.post(1, false, 2, 1, true);
+        x.post(2, true, 1, 1, true);
+        x.post(1, true, 1, 1, true);
+        x.cup(3);
+        x.cup(4);
+        sendAll(x, 0);
+        x.tick(2);
+        Due.is("2 rang", x.mayBe(0), 1);
+        x.cord(2, false);
+        x.tick(16);
+        Due.is("1 did not ring", x.mayBe(0), 1);
+        sendAll(x, 1);
+        x.tick(2);
+        Due.is("1 rang at 20", x.bell(1, true), 20);
+        for (int t = 20; t < 27; t++) {
+            Due.is("at " + t + ": mayBe(0)", x.mayBe(0), t < 25 ? 2 : 3);
+            x.tick(1);
+        }
+        x.joint(2, 2, 1);
+        Due.is("2 is silent", x.mayBe(0), 3);
+        x.joint(1, 2, 1);
+        x.joint(2, 2, 0);
+        Due.is("2 rang at 2, and 1 is silent", x.mayBe(0), 3);
     }
 }

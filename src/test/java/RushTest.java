@@ -8,8 +8,10 @@ public final class RushTest {
         promise28load();
         promise29lines();
         promise29edges();
+        promise29inEachHour();
         promise30wanted();
         promise31vital();
+        promise31ofLikeLosses();
         promise32loss();
         promise28toPromise32ofBrokenWires();
         Due.end();
@@ -108,6 +110,21 @@ public final class RushTest {
         Due.is("no more", x.lines(1), 1);
     }
 
+    private static void promise29inEachHour() {
+        for (int hour = 0; hour < 6; hour++) {
+            FlyingChange x = new FlyingChange();
+            x.post(0, false, 10, 10, false);
+            x.post(1, true, 1, 1, true);
+            int[] loads = {36, 37, 72, 73, 144, 145, 300};
+            int[] due = {1, 2, 2, 4, 4, 6, 10};
+            for (int i = 0; i < loads.length; i++) {
+                x.rush(2, hour, loads[i]);
+                Due.is("hour " + hour + ", load " + loads[i] + ": lines(1)", x.lines(1), due[i]);
+                Due.is("hour " + hour + ", load " + loads[i] + ": wanted()", x.wanted(), 10 * due[i] + 1);
+            }
+        }
+    }
+
     private static void promise30wanted() {
         FlyingChange x = shop();
         Due.is("one line each", x.wanted(), 3 + 5 + 2 + 9 + 1);
@@ -134,6 +151,21 @@ public final class RushTest {
         Due.is("vital(6)", x.vital(6), OUTSIDE);
         Due.is("vital(-1)", x.vital(-1), OUTSIDE);
         Due.is("no wires", new FlyingChange().vital(0), NONE);
+    }
+
+    private static void promise31ofLikeLosses() {
+        FlyingChange x = new FlyingChange();
+        x.post(0, true, 9, 1, true);
+        x.post(0, true, 3, 1, true);
+        x.post(0, true, 18, 1, true);
+        x.rush(1, 0, 100);
+        x.rush(2, 0, 300);
+        x.rush(3, 0, 50);
+        Due.is("all three lose as much: the least", x.vital(0), 1);
+        x.rush(1, 0, 99);
+        Due.is("two of them: the least", x.vital(0), 2);
+        x.rush(3, 0, 51);
+        Due.is("the last one is above it", x.vital(0), 3);
     }
 
     private static void promise32loss() {
