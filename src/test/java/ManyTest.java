@@ -8,8 +8,12 @@ public final class ManyTest {
         promise3silenceForgetsNoTurn();
         promise3catchForgetsNoWear();
         promise5toldWhatItIs();
+        promise2newThingsAreBesideTheOld();
+        promise9drawerIsToldAtOnce();
         promise11salesOfManyPrices();
         promise12twoStraysOfOneCounter();
+        promise12resentThoughItsHomeIsCutOff();
+        promise16rightChildThoughItsWireIsBroken();
         promise13portersOfOneWire();
         promise13portersOfOneTick();
         promise13farPorter();
@@ -19,6 +23,7 @@ public final class ManyTest {
         promise23twoCounters();
         promise24longWaits();
         promise35lateBells();
+        promise35bellsOfOtherJoints();
         promise36greatSums();
         Due.end();
     }
@@ -139,6 +144,58 @@ public final class ManyTest {
         Due.is("whole", x.about(1, 5), 1);
     }
 
+    /** A COUNTER, CUPS, a CLERK and coins that come while two wait for a GAP: it is as long as it was. */
+    private static void promise2newThingsAreBesideTheOld() {
+        FlyingChange x = new FlyingChange();
+        x.post(0, false, 1, 10, true);
+        x.post(1, true, 1, 10, true);
+        for (int i = 0; i < 2; i++) {
+            x.cup(2);
+        }
+        sendAll(x, 0, 1);
+        x.tick(3);
+        Due.is("a counter more", x.post(1, true, 1, 1, true), 3);
+        Due.is("a joint more", x.post(1, false, 1, 1, true), 4);
+        Due.is("a cup more", x.cup(2), 2);
+        Due.is("a cup of the new counter", x.cup(3), 3);
+        Due.is("a clerk more", x.clerk(30), 0);
+        x.fetch(0, 1, 1);
+        x.drawer(1, 5);
+        x.order(1);
+        x.joint(1, 0, 1);
+        sendAll(x, 2, 3);
+        x.tick(2);
+        isAt(x, "the new one has come to the joint", 3, WAITING, 1);
+        x.tick(5);
+        isAt(x, "9 ticks behind the first at 2", 1, WAITING, 2);
+        x.tick(1);
+        isAt(x, "10 ticks behind the first at 2", 1, ON_WIRE, 2);
+        isAt(x, "9 ticks behind the first at 1", 3, WAITING, 1);
+        x.tick(1);
+        isAt(x, "10 ticks behind the first at 1: near, from 2", 1, ON_WIRE, 1);
+        isAt(x, "the new one waits", 3, WAITING, 1);
+        isAt(x, "the first is with the clerk", 0, WITH_CLERK, 0);
+        Due.is("for as long as he needs", x.clerkAt(0, 1), 22);
+    }
+
+    private static void promise9drawerIsToldAtOnce() {
+        FlyingChange x = new FlyingChange();
+        x.post(0, true, 1, 1, true);
+        x.cup(1);
+        x.clerk(5);
+        x.drawer(0, 3);
+        x.send(0, 5, 2, 1);
+        x.tick(4);
+        isAt(x, "with the clerk", 0, WITH_CLERK, 0);
+        Due.is("told while he has one, was", x.drawer(0, 0), 3);
+        Due.is("at once", x.till(0), 0);
+        Due.is("told again, was", x.drawer(3, 2), 0);
+        Due.is("at once", x.till(3), 2);
+        x.tick(3);
+        Due.is("it is what he finds there", x.cupAt(0, 6), 3);
+        Due.is("what was told is there", x.till(6), 24);
+    }
+
     // ---- several cups
 
     private static void promise11salesOfManyPrices() {
@@ -204,6 +261,43 @@ public final class ManyTest {
         isAt(y, "home", 0, HOME, 2);
         isAt(y, "the other is a stray still", 1, STRAY, 3);
         Due.is("a sale is done with", y.waits(2, 0), 1);
+    }
+
+    private static void promise12resentThoughItsHomeIsCutOff() {
+        FlyingChange x = twoStrays();
+        x.cord(2, false);
+        Due.is("resent", x.resend(0), 3);
+        x.tick(9);
+        isAt(x, "it waits at the joint for its own wire", 0, WAITING, 1);
+        Due.is("to 2", x.cupAt(0, 4), 2);
+        Due.is("a porter for the other, as it is a stray", x.porter(1), 55);
+        Due.is("none for the one that waits", x.porter(0), STATE);
+        x.tick(6);
+        isAt(x, "home", 1, HOME, 2);
+        x.cord(2, true);
+        x.tick(2);
+        isAt(x, "home", 0, HOME, 2);
+    }
+
+    /** COUNTERS 1, 2, 3 on THE CAGE: CUP 0, of 2, is done while WIRE 2 is BROKEN. */
+    private static void promise16rightChildThoughItsWireIsBroken() {
+        FlyingChange x = new FlyingChange();
+        for (int i = 1; i <= 3; i++) {
+            x.post(0, true, 1, 1, true);
+        }
+        x.cup(2);
+        x.cup(3);
+        x.clerk(2);
+        sendAll(x, 0, 1);
+        x.tick(2);
+        x.cord(2, false);
+        x.tick(9);
+        isAt(x, "it waits in the cage", 0, WAITING, 0);
+        Due.is("to 2", x.cupAt(0, 4), 2);
+        isAt(x, "the other went its way", 1, HOME, 3);
+        x.cord(2, true);
+        x.tick(2);
+        isAt(x, "home", 0, HOME, 2);
     }
 
     private static void promise13portersOfOneWire() {
@@ -361,6 +455,8 @@ public final class ManyTest {
                 Due.is("clerkAt(" + clerk + ", 1)", x.clerkAt(clerk, 1), has ? 10 + clerk - (cup - clerk) : 0);
             }
             isAt(x, "with his clerk", cup, WITH_CLERK, cup);
+            Due.is("with the clerks, so not in the row", x.row(0), NONE);
+            Due.is("nothing to plan", x.worst(), NONE);
         }
         FlyingChange y = new FlyingChange();
         y.post(0, true, 1, 1, true);
@@ -480,6 +576,54 @@ public final class ManyTest {
             x.tick(14);
             Due.is("way " + way + ": home", x.mayBe(0), STATE);
             Due.is("way " + way + ": bells", x.bells(), Math.min(300, 14 * (way + 1)));
+        }
+    }
+
+    /** JOINTS 1, 2, 3, one below another, all of LENGTH 1, with COUNTERS 7, 6, 5; CUP 0 of 4, on 3, does not go. */
+    private static void promise35bellsOfOtherJoints() {
+        FlyingChange x = new FlyingChange();
+        x.post(0, false, 1, 1, true);
+        x.post(1, false, 1, 1, true);
+        x.post(2, false, 1, 1, true);
+        x.post(3, true, 1, 1, true);
+        x.post(3, true, 1, 1, true);
+        x.post(2, true, 1, 1, true);
+        x.post(1, true, 1, 1, true);
+        x.cup(4);
+        for (int home = 5; home <= 7; home++) {
+            x.cup(home);
+            x.cup(home);
+        }
+        for (int wire = 1; wire <= 4; wire++) {
+            x.cord(wire, false);
+        }
+        sendAll(x, 0);
+        int[][] ringers = {{5, 6}, {3, 4}, {1, 2}};
+        for (int i = 0; i < 3; i++) {
+            sendAll(x, ringers[i]);
+            x.tick(4);
+            Due.is("it rings alone", x.bell(x.bells() - 1, false), 1 + i);
+            Due.is("those that rang, from the highest on", x.bells(), 2 * (i + 1));
+            Due.is("joint 3 is the first on its way: mayBe(0)", x.mayBe(0), i < 2 ? 0 : 1);
+        }
+        x.joint(3, 2, 1);
+        Due.is("3 is silent, 2 rang, but 1 ahead of it alone", x.mayBe(0), 2);
+        x.joint(2, 2, 1);
+        Due.is("3 and 2 are silent, 1 rang at 2 and 3", x.mayBe(0), 4);
+        FlyingChange y = new FlyingChange();
+        for (int i = 1; i <= 4; i++) {
+            y.post(i - 1, i == 4, 1, 1, true);
+        }
+        y.cup(4);
+        y.cup(4);
+        y.cup(4);
+        y.cord(3, false);
+        for (int cup = 0; cup < 3; cup++) {
+            sendAll(y, cup);
+            y.tick(5);
+            Due.is("3 rang, again and again", y.bells(), cup + 1);
+            Due.is("so it may be there, and no farther", y.mayBe(0), 1);
+            Due.is("the latest, too", y.mayBe(cup), 1);
         }
     }
 
