@@ -1,8 +1,5 @@
 /** Promises 33 to 36: BELLS, and what there is in all. */
-public final class BellTest {
-    private static final int UNKNOWN = FlyingChange.UNKNOWN, OUTSIDE = FlyingChange.OUTSIDE, STATE = FlyingChange.STATE,
-        NONE = FlyingChange.NONE;
-
+public final class BellTest extends Shops {
     public static void main(String[] args) {
         promise33bells();
         promise33latest300();
@@ -44,17 +41,6 @@ public final class BellTest {
         Due.is("a counter rings none", x.bells(), 2);
     }
 
-    /** JOINTS 1 .. 8, one below another, and COUNTER 9 on the last: a way there and back rings 16 times in 20 ticks. */
-    private static FlyingChange longWay() {
-        FlyingChange x = new FlyingChange();
-        for (int i = 0; i < 9; i++) {
-            x.post(i, i == 8, 1, 1, true);
-        }
-        x.cup(9);
-        x.clerk(1);
-        return x;
-    }
-
     private static void goes(FlyingChange x, int cup, int times) {
         for (int i = 0; i < times; i++) {
             x.send(cup, 1, 0, 1);
@@ -63,7 +49,7 @@ public final class BellTest {
     }
 
     private static void promise33latest300() {
-        FlyingChange x = longWay();
+        FlyingChange x = chain(8);
         goes(x, 0, 18);
         Due.is("18 times 16", x.bells(), 288);
         goes(x, 0, 1);
@@ -207,7 +193,7 @@ public final class BellTest {
     }
 
     private static void promise35forgotten() {
-        FlyingChange x = longWay();
+        FlyingChange x = chain(8);
         x.post(1, true, 1, 1, true);
         x.cup(10);
         x.send(0, 1, 0, 1);

@@ -1,8 +1,5 @@
 /** Promises 11 to 15: what is done with a CUP and told of it. */
-public final class CupTest {
-    private static final int UNKNOWN = FlyingChange.UNKNOWN, OUTSIDE = FlyingChange.OUTSIDE, STATE = FlyingChange.STATE,
-        NONE = FlyingChange.NONE;
-
+public final class CupTest extends Shops {
     public static void main(String[] args) {
         promise11send();
         promise11refusals();

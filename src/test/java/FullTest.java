@@ -1,8 +1,5 @@
 /** The most of each thing: the last that still fits, the first that doesn't, and what is empty. */
-public final class FullTest {
-    private static final int OUTSIDE = FlyingChange.OUTSIDE, STATE = FlyingChange.STATE, FULL = FlyingChange.FULL,
-        UNKNOWN = FlyingChange.UNKNOWN, NONE = FlyingChange.NONE;
-
+public final class FullTest extends Shops {
     public static void main(String[] args) {
         promise1emptyShop();
         promise2sixteenPosts();
@@ -82,19 +79,8 @@ public final class FullTest {
         }
     }
 
-    /** JOINTS 1 .. 14 one below another and COUNTER 15 on the last, each WIRE of LENGTH 1. */
-    private static FlyingChange deepest() {
-        FlyingChange x = new FlyingChange();
-        for (int i = 0; i < 15; i++) {
-            x.post(i, i == 14, 1, 1, true);
-        }
-        x.cup(15);
-        x.clerk(1);
-        return x;
-    }
-
     private static void promise2sixteenOnOneWay() {
-        FlyingChange x = deepest();
+        FlyingChange x = chain(14);
         Due.is("there is no room below", x.post(14, true, 1, 1, true), FULL);
         x.rush(15, 0, 300);
         for (int wire = 1; wire <= 15; wire++) {
@@ -441,19 +427,8 @@ public final class FullTest {
         Due.is("in no other hour", x.vital(4), NONE);
     }
 
-    /** JOINTS 1 .. 8, one below another, and COUNTER 9 on the last: a way rings 8 .. 1 at 2 .. 9, 1 .. 8 at 12 .. 19. */
-    private static FlyingChange longWay() {
-        FlyingChange x = new FlyingChange();
-        for (int i = 0; i < 9; i++) {
-            x.post(i, i == 8, 1, 1, true);
-        }
-        x.cup(9);
-        x.clerk(1);
-        return x;
-    }
-
     private static void promise33theThreeHundredthBell() {
-        FlyingChange x = longWay();
+        FlyingChange x = chain(8);
         for (int i = 0; i < 18; i++) {
             x.send(0, 1, 0, 1);
             x.tick(20);
@@ -525,7 +500,7 @@ public final class FullTest {
     }
 
     private static void promise35bellsThatAreGone() {
-        FlyingChange x = longWay();
+        FlyingChange x = chain(8);
         x.post(1, true, 1, 1, true);
         x.cup(10);
         x.send(0, 1, 0, 1);

@@ -1,8 +1,5 @@
 /** Several at a time, and for long: none stands for another, and what is told of one leaves the others as they are. */
-public final class ManyTest {
-    private static final int STATE = FlyingChange.STATE, NONE = FlyingChange.NONE;
-    private static final int HOME = 0, WAITING = 1, ON_WIRE = 2, WITH_CLERK = 4, STRAY = 5, WITH_PORTER = 6;
-
+public final class ManyTest extends Shops {
     public static void main(String[] args) {
         promise3toldWhileTheyWait();
         promise3silenceForgetsNoTurn();
@@ -28,44 +25,11 @@ public final class ManyTest {
         Due.end();
     }
 
-    private static void isAt(FlyingChange x, String when, int cup, int where, int at) {
-        String call = when + ", tick " + x.total(2) + ": cupAt(" + cup + ", ";
-        Due.is(call + "0)", x.cupAt(cup, 0), where);
-        Due.is(call + "1)", x.cupAt(cup, 1), at);
-    }
-
-    private static void sendAll(FlyingChange x, int... cups) {
-        for (int c : cups) {
-            x.send(c, 1, 0, 1);
-        }
-    }
-
-    /** JOINT 1 with COUNTERS 2, 3, 4 on it, all of LENGTH 1; CUPS of these HOMES. */
-    private static FlyingChange joint(int... homes) {
-        FlyingChange x = new FlyingChange();
-        x.post(0, false, 1, 1, true);
-        for (int i = 0; i < 3; i++) {
-            x.post(1, true, 1, 1, true);
-        }
-        for (int home : homes) {
-            x.cup(home);
-        }
-        return x;
-    }
-
-    private static void goUpInTurn(FlyingChange x, String when, int... cups) {
-        x.cord(1, true);
-        for (int cup : cups) {
-            x.tick(1);
-            isAt(x, when, cup, ON_WIRE, 1);
-        }
-    }
-
     // ---- what is told of one thing
 
     private static void promise3toldWhileTheyWait() {
         for (int catchOfIt = 0; catchOfIt <= 2; catchOfIt++) {
-            FlyingChange x = joint(2, 3, 4);
+            FlyingChange x = joint(1, 0, 2, 3, 4);
             x.cord(1, false);
             sendAll(x, 2);
             x.tick(1);
@@ -82,15 +46,17 @@ public final class ManyTest {
                 Due.is("its stamp is as it was", x.cupAt(cup, 2), 4 - cup);
             }
             if (catchOfIt == 0) {
-                goUpInTurn(x, "first", 2, 1, 0);
+                x.cord(1, true);
+                goOnInTurn(x, "first", 1, 2, 1, 0);
             } else {
-                goUpInTurn(x, "near, or turn", 0, 1, 2);
+                x.cord(1, true);
+                goOnInTurn(x, "near, or turn", 1, 0, 1, 2);
             }
         }
     }
 
     private static void promise3silenceForgetsNoTurn() {
-        FlyingChange x = joint(2, 3, 4, 2);
+        FlyingChange x = joint(1, 0, 2, 3, 4, 2);
         x.joint(1, 0, 2);
         sendAll(x, 0);
         x.tick(2);
@@ -102,12 +68,13 @@ public final class ManyTest {
         x.cord(2, true);
         sendAll(x, 1, 2, 3);
         x.tick(2);
-        goUpInTurn(x, "behind 2 still", 1, 2, 3);
+        x.cord(1, true);
+        goOnInTurn(x, "behind 2 still", 1, 1, 2, 3);
     }
 
     private static void promise3catchForgetsNoWear() {
         for (int catchOfIt = 0; catchOfIt <= 2; catchOfIt++) {
-            FlyingChange x = joint(2);
+            FlyingChange x = joint(1, 0, 2);
             x.clerk(1);
             x.joint(1, 0, 1 - catchOfIt / 2);
             x.joint(1, 1, 2);
@@ -231,7 +198,7 @@ public final class ManyTest {
 
     /** CUPS 0 and 1 of 2 are STRAY at 3; CUP 2, of 3, is HOME. */
     private static FlyingChange twoStrays() {
-        FlyingChange x = joint(2, 2, 3);
+        FlyingChange x = joint(1, 0, 2, 2, 3);
         x.clerk(1);
         for (int cup = 0; cup < 2; cup++) {
             x.joint(1, 1, 2);
@@ -515,7 +482,7 @@ public final class ManyTest {
     }
 
     private static void promise23twoCounters() {
-        FlyingChange x = joint(2, 3, 4, 3);
+        FlyingChange x = joint(1, 0, 2, 3, 4, 3);
         x.clerk(1);
         x.send(0, 6, 2, 1);
         x.send(1, 3, 1, 1);
@@ -559,14 +526,8 @@ public final class ManyTest {
         }
     }
 
-    /** JOINTS 1 .. 7, one below another, and COUNTER 8 on the last, all of LENGTH 1: a way there and back rings 14 times. */
     private static void promise35lateBells() {
-        FlyingChange x = new FlyingChange();
-        for (int i = 1; i <= 8; i++) {
-            x.post(i - 1, i == 8, 1, 1, true);
-        }
-        x.cup(8);
-        x.clerk(1);
+        FlyingChange x = chain(7);
         for (int way = 0; way < 30; way++) {
             sendAll(x, 0);
             x.tick(2);

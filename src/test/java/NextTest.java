@@ -1,8 +1,5 @@
 /** Who is next, where another rule would tell another one: in THE ROW, at a COUNTER, at a CATCH, on the way down. */
-public final class NextTest {
-    private static final int NONE = FlyingChange.NONE;
-    private static final int HOME = 0, WAITING = 1, ON_WIRE = 2, IN_ROW = 3, WITH_CLERK = 4, STRAY = 5;
-
+public final class NextTest extends Shops {
     public static void main(String[] args) {
         promise16firstOfLikeStamps();
         promise16oldestOfLikeOnes();
@@ -36,31 +33,10 @@ public final class NextTest {
         Due.end();
     }
 
-    private static void isAt(FlyingChange x, String when, int cup, int where, int at) {
-        String call = when + ", tick " + x.total(2) + ": cupAt(" + cup + ", ";
-        Due.is(call + "0)", x.cupAt(cup, 0), where);
-        Due.is(call + "1)", x.cupAt(cup, 1), at);
-    }
-
-    private static void isRow(FlyingChange x, String when, int... cups) {
-        for (int i = 0; i < cups.length; i++) {
-            Due.is(when + ": row(" + i + ")", x.row(i), cups[i]);
-        }
-        Due.is(when + ": no more", x.row(cups.length), NONE);
-    }
-
-    private static void sendAll(FlyingChange x, int... cups) {
+    /** The price is above the number of each CUP, so that none can be taken for the other. */
+    private static void sendDear(FlyingChange x, int... cups) {
         for (int c : cups) {
             x.send(c, 60, 5, 1);
-        }
-    }
-
-    /** They go on a WIRE in that order, one at each TICK from the next on. */
-    private static void goOnInTurn(FlyingChange x, String when, int wire, int... cups) {
-        for (int cup : cups) {
-            x.tick(1);
-            isAt(x, when, cup, ON_WIRE, wire);
-            Due.is(when + ": it has just come: cupAt(" + cup + ", 2)", x.cupAt(cup, 2), 0);
         }
     }
 
@@ -84,9 +60,9 @@ public final class NextTest {
 
     private static void promise16firstOfLikeStamps() {
         FlyingChange x = twoCounters(5, 2);
-        sendAll(x, 1);
+        sendDear(x, 1);
         x.tick(3);
-        sendAll(x, 0);
+        sendDear(x, 0);
         x.tick(3);
         Due.is("it came at 6", x.cupAt(0, 2), 6);
         Due.is("so did the other", x.cupAt(1, 2), 6);
@@ -96,7 +72,7 @@ public final class NextTest {
 
     private static void promise16oldestOfLikeOnes() {
         FlyingChange x = twoCounters(2, 5);
-        sendAll(x, 0, 1);
+        sendDear(x, 0, 1);
         x.tick(9);
         isRow(x, "first: the least stamp", 1, 0);
         x.order(1);
@@ -112,27 +88,13 @@ public final class NextTest {
         x.cup(3);
         x.cup(2);
         x.order(2);
-        sendAll(x, 0, 1);
+        sendDear(x, 0, 1);
         x.tick(30);
         isRow(x, "near: the least home, though its way is longer and by a joint", 1, 0);
         isTaken(x, "near", 1);
     }
 
     // ---- a catch
-
-    /** JOINT 1 with COUNTERS 2, 3, 4 at LENGTH 1 each; WIRE 1 is 5 long; a CUP of each of the HOMES told. */
-    private static FlyingChange joint(int catchOfIt, int... homes) {
-        FlyingChange x = new FlyingChange();
-        x.post(0, false, 5, 1, true);
-        for (int i = 0; i < 3; i++) {
-            x.post(1, true, 1, 1, true);
-        }
-        x.joint(1, 0, catchOfIt);
-        for (int home : homes) {
-            x.cup(home);
-        }
-        return x;
-    }
 
     private static void promise16stampOfTheFirstTick() {
         for (int[] cups : new int[][] {{3, 2, 1}, {1, 2, 3}, {2, 1, 3}}) {
@@ -141,7 +103,7 @@ public final class NextTest {
             x.cup(1);
             x.cord(1, false);
             for (int cup : cups) {
-                sendAll(x, cup);
+                sendDear(x, cup);
                 x.tick(1);
             }
             x.cord(1, true);
@@ -162,7 +124,7 @@ public final class NextTest {
         for (int home : new int[] {4, 3, 2, 4, 3, 2}) {
             x.cup(home);
         }
-        sendAll(x, 0, 1, 2, 3, 4, 5);
+        sendDear(x, 0, 1, 2, 3, 4, 5);
         int[] due = {2, 1, 0, 5, 4, 3};
         for (int i = 0; i < due.length; i++) {
             x.tick(2);
@@ -175,10 +137,10 @@ public final class NextTest {
 
     /** CUP 0 of 2 is STRAY at 3, its SALE is ANSWERED, or REFUSED; SENT at 30, THE TICK is 60. CLERK 0 needs so many ticks. */
     private static FlyingChange withStray(int catchOfIt, boolean refused, int needs, int... homes) {
-        FlyingChange x = joint(catchOfIt, homes);
+        FlyingChange x = joint(5, catchOfIt, homes);
         x.clerk(needs);
         x.joint(1, 1, 2);
-        sendAll(x, 0);
+        sendDear(x, 0);
         x.tick(30);
         isAt(x, "the first goes the right way", 0, HOME, 2);
         x.drawer(0, 0);
@@ -196,24 +158,24 @@ public final class NextTest {
         x.tick(2);
         isAt(x, "it goes up from 3", 0, ON_WIRE, 1);
         x.cord(1, false);
-        sendAll(x, 1, 2, 3);
+        sendDear(x, 1, 2, 3);
         x.tick(2);
         x.cord(1, true);
         goOnInTurn(x, "behind 3, though its home is 2: 4, 2, 3", 1, 2, 3, 1);
     }
 
     private static void promise16turnOfTheWayDown() {
-        FlyingChange x = joint(2, 4, 2, 2, 3);
+        FlyingChange x = joint(5, 2, 4, 2, 2, 3);
         x.clerk(1);
-        sendAll(x, 0);
+        sendDear(x, 0);
         x.tick(2);
-        sendAll(x, 1);
+        sendDear(x, 1);
         x.tick(2);
         isAt(x, "4 has gone up, then 2", 1, ON_WIRE, 1);
         x.tick(9);
         isAt(x, "the first goes down to 4", 0, ON_WIRE, 4);
         x.cord(1, false);
-        sendAll(x, 2, 3);
+        sendDear(x, 2, 3);
         x.tick(2);
         x.cord(1, true);
         goOnInTurn(x, "a cup that goes down is no turn: behind 2 is 3", 1, 3, 2);
@@ -221,9 +183,9 @@ public final class NextTest {
 
     private static void promise16turnOfABrokenChild() {
         for (int catchOfIt = 1; catchOfIt <= 2; catchOfIt++) {
-            FlyingChange x = joint(catchOfIt, 3, 2);
+            FlyingChange x = joint(5, catchOfIt, 3, 2);
             x.cord(1, false);
-            sendAll(x, 0, 1);
+            sendDear(x, 0, 1);
             x.tick(2);
             x.cord(2, false);
             x.cord(1, true);
@@ -234,10 +196,10 @@ public final class NextTest {
     // ---- the way down
 
     private static void promise16downFromTheCage() {
-        FlyingChange x = joint(0, 2, 4);
-        sendAll(x, 1);
+        FlyingChange x = joint(5, 0, 2, 4);
+        sendDear(x, 1);
         x.tick(1);
-        sendAll(x, 0);
+        sendDear(x, 0);
         x.tick(9);
         x.cord(1, false);
         x.clerk(1);
@@ -246,8 +208,8 @@ public final class NextTest {
         isAt(x, "both wait in the cage", 1, WAITING, 0);
         x.cord(1, true);
         goOnInTurn(x, "the least stamp, though cup and home are greater", 1, 1, 0);
-        FlyingChange y = joint(0, 4, 2);
-        sendAll(y, 0, 1);
+        FlyingChange y = joint(5, 0, 4, 2);
+        sendDear(y, 0, 1);
         y.tick(9);
         y.cord(1, false);
         y.clerk(3);
@@ -271,9 +233,9 @@ public final class NextTest {
             x.cup(3);
             x.cup(4);
             x.clerk(1);
-            sendAll(x, 1);
+            sendDear(x, 1);
             x.tick(1);
-            sendAll(x, 0);
+            sendDear(x, 0);
             x.tick(3);
             x.cord(2, false);
             x.tick(5);
@@ -287,29 +249,29 @@ public final class NextTest {
     }
 
     private static void promise16thrownToABrokenWire() {
-        FlyingChange x = joint(0, 3, 2, 4);
+        FlyingChange x = joint(5, 0, 3, 2, 4);
         x.joint(1, 1, 2);
         x.clerk(1);
         x.cord(3, false);
-        sendAll(x, 2);
+        sendDear(x, 2);
         x.tick(1);
-        sendAll(x, 1);
+        sendDear(x, 1);
         x.tick(13);
         isAt(x, "the first at the catch", 2, HOME, 4);
         isAt(x, "the second is thrown to 3, though that wire is broken", 1, WAITING, 1);
         Due.is("the second: to 3", x.cupAt(1, 4), 3);
         x.cord(3, true);
-        sendAll(x, 0);
+        sendDear(x, 0);
         x.tick(1);
         isAt(x, "it goes when the wire is whole", 1, ON_WIRE, 3);
-        FlyingChange y = joint(0, 3, 2, 4);
+        FlyingChange y = joint(5, 0, 3, 2, 4);
         y.joint(1, 1, 2);
         y.clerk(1);
-        sendAll(y, 2);
+        sendDear(y, 2);
         y.tick(1);
-        sendAll(y, 1);
+        sendDear(y, 1);
         y.tick(1);
-        sendAll(y, 0);
+        sendDear(y, 0);
         y.tick(2);
         y.cord(3, false);
         y.tick(15);
@@ -333,25 +295,25 @@ public final class NextTest {
         x.post(2, true, 1, 1, true);
         x.cup(4);
         x.clerk(1);
-        sendAll(x, 0);
+        sendDear(x, 0);
         x.tick(9);
         x.joint(1, 1, 2);
-        sendAll(x, 0);
+        sendDear(x, 0);
         x.tick(9);
-        sendAll(x, 0);
+        sendDear(x, 0);
         x.tick(9);
         isAt(x, "thrown from 4 round to 2, and there to the least child", 0, STRAY, 3);
     }
 
     private static void promise16nextChildIsANewOne() {
-        FlyingChange x = joint(0, 4, 4);
+        FlyingChange x = joint(5, 0, 4, 4);
         x.clerk(1);
         x.joint(1, 1, 2);
-        sendAll(x, 0);
+        sendDear(x, 0);
         x.tick(20);
         isAt(x, "the first", 0, HOME, 4);
         Due.is("a counter behind 4", x.post(1, true, 1, 1, true), 5);
-        sendAll(x, 0);
+        sendDear(x, 0);
         x.tick(20);
         isAt(x, "the second, to that behind", 0, STRAY, 5);
     }
@@ -359,7 +321,7 @@ public final class NextTest {
     // ---- what is broken, worn or told
 
     private static void promise2newJointIsAsAtFirst() {
-        FlyingChange x = joint(2);
+        FlyingChange x = joint(5, 2);
         x.joint(1, 1, 9);
         x.joint(1, 2, 1);
         x.cord(1, false);
@@ -372,7 +334,7 @@ public final class NextTest {
     }
 
     private static void promise5brokenWiresRefuseNothing() {
-        FlyingChange x = joint(0);
+        FlyingChange x = joint(5, 0);
         x.cord(1, false);
         x.cord(2, false);
         Due.is("a cup of a counter whose wire is broken", x.cup(2), 0);
@@ -424,7 +386,7 @@ public final class NextTest {
         Due.is("resent, for a broken wire", y.resend(0), 3);
         y.tick(9);
         isAt(y, "it waits there", 0, WAITING, 3);
-        Due.is("no porter for one that waits", y.porter(0), FlyingChange.STATE);
+        Due.is("no porter for one that waits", y.porter(0), STATE);
     }
 
     /** A SINGLE WIRE 1 with JOINT 1, COUNTERS 2 and 3 on that: one comes up from 2, one was SENT later and goes down. */
@@ -436,9 +398,9 @@ public final class NextTest {
         x.cup(2);
         x.cup(3);
         x.clerk(1);
-        sendAll(x, 0);
+        sendDear(x, 0);
         x.tick(15);
-        sendAll(x, 1);
+        sendDear(x, 1);
         x.tick(3);
         x.cord(1, false);
         x.tick(7);
@@ -458,14 +420,14 @@ public final class NextTest {
             for (int i = 0; i < 3; i++) {
                 x.cup(1);
             }
-            sendAll(x, 1);
+            sendDear(x, 1);
             x.tick(1);
-            sendAll(x, 0);
+            sendDear(x, 0);
             x.tick(6);
             Due.is("the first stands at 6", x.cupAt(1, 2), 6);
             Due.is("the second stands at 1", x.cupAt(0, 2), 1);
             x.cord(1, false);
-            sendAll(x, 2);
+            sendDear(x, 2);
             x.tick(30);
             x.cord(1, true);
             for (int place = 2; place <= 4; place++) {
@@ -519,12 +481,12 @@ public final class NextTest {
 
     private static void promise12strayAndOwnOfACounter() {
         FlyingChange x = withStray(0, false, 1, 2, 3);
-        sendAll(x, 1);
+        sendDear(x, 1);
         x.resend(0);
         goOnInTurn(x, "like stamps: the least cup, which is the stray", 3, 0, 1);
         FlyingChange y = withStray(0, false, 1, 2, 3);
         y.cord(3, false);
-        sendAll(y, 1);
+        sendDear(y, 1);
         y.tick(1);
         y.resend(0);
         y.cord(3, true);
@@ -533,19 +495,19 @@ public final class NextTest {
         z.cord(3, false);
         z.resend(0);
         z.tick(1);
-        sendAll(z, 1);
+        sendDear(z, 1);
         z.cord(3, true);
         goOnInTurn(z, "the least stamp, which is the stray", 3, 0, 1);
-        FlyingChange u = joint(0, 3, 2);
+        FlyingChange u = joint(5, 0, 3, 2);
         u.clerk(1);
         u.joint(1, 1, 2);
-        sendAll(u, 1);
+        sendDear(u, 1);
         u.tick(20);
-        sendAll(u, 1);
+        sendDear(u, 1);
         u.tick(20);
         isAt(u, "a stray of the greater number", 1, STRAY, 3);
         u.resend(1);
-        sendAll(u, 0);
+        sendDear(u, 0);
         goOnInTurn(u, "like stamps: the least cup, which is at its home", 3, 0, 1);
     }
 
@@ -557,13 +519,13 @@ public final class NextTest {
                 x.cord(1, false);
                 x.resend(0);
                 x.tick(1);
-                sendAll(x, 1);
+                sendDear(x, 1);
                 x.tick(2);
                 x.cord(1, true);
                 goOnInTurn(x, "the settled one has the lesser stamp", 1, 0, 1);
                 FlyingChange y = withStray(0, refused == 1, 1, 2, 3, 4);
                 y.cord(1, false);
-                sendAll(y, 2);
+                sendDear(y, 2);
                 y.tick(1);
                 y.resend(0);
                 y.tick(2);
@@ -580,7 +542,7 @@ public final class NextTest {
             x.cord(1, false);
             x.resend(0);
             x.tick(1);
-            sendAll(x, 1, 2);
+            sendDear(x, 1, 2);
             x.tick(2);
             x.cord(1, true);
             goOnInTurn(x, "near: it came from 3, though its stamp is less and its home 2", 1, 2, 0, 1);
@@ -588,7 +550,7 @@ public final class NextTest {
             y.cord(1, false);
             y.resend(0);
             y.tick(1);
-            sendAll(y, 1, 2);
+            sendDear(y, 1, 2);
             y.tick(2);
             y.cord(1, true);
             goOnInTurn(y, "turn, behind 2: it came from 3", 1, 0, 1, 2);
@@ -607,14 +569,14 @@ public final class NextTest {
                 x.cup(3);
                 x.clerk(1);
                 x.joint(1, 1, 2);
-                sendAll(x, 0);
+                sendDear(x, 0);
                 x.tick(20);
                 x.drawer(0, 0);
                 x.send(0, 2, refused, 2);
                 x.tick(20);
                 isAt(x, "a stray", 0, STRAY, 3);
                 Due.is("its sale", x.cupAt(0, 6), refused == 1 ? 3 : 2);
-                sendAll(x, 1);
+                sendDear(x, 1);
                 x.tick(2 + later);
                 x.resend(0);
                 if (later == 0) {
@@ -633,14 +595,14 @@ public final class NextTest {
     /** The CLERK has CUP 1; in THE ROW are CUP 0, which is settled, and CUP 2, which is OPEN; THE TICK is 71. */
     private static FlyingChange settledInTheRow(boolean refused, boolean settledFirst, int homeOfTheOpen) {
         FlyingChange x = withStray(0, refused, 9, 2, 3, homeOfTheOpen);
-        sendAll(x, 1);
+        sendDear(x, 1);
         x.tick(1);
         if (settledFirst) {
             x.resend(0);
             x.tick(1);
-            sendAll(x, 2);
+            sendDear(x, 2);
         } else {
-            sendAll(x, 2);
+            sendDear(x, 2);
             x.tick(1);
             x.resend(0);
         }
@@ -686,20 +648,20 @@ public final class NextTest {
 
     private static void promise12settledIsSentWhenItWas() {
         for (int refused = 0; refused < 2; refused++) {
-            FlyingChange x = joint(0, 2, 4, 3);
+            FlyingChange x = joint(5, 0, 2, 4, 3);
             x.clerk(9);
             x.joint(1, 1, 2);
             x.cord(4, false);
             x.tick(1);
-            sendAll(x, 1);
-            sendAll(x, 0);
+            sendDear(x, 1);
+            sendDear(x, 0);
             x.tick(30);
             x.drawer(0, 0);
             x.send(0, 2, refused, 2);
             x.tick(30);
             isAt(x, "a stray", 0, STRAY, 3);
             Due.is("its sale", x.cupAt(0, 6), refused == 1 ? 3 : 2);
-            sendAll(x, 2);
+            sendDear(x, 2);
             x.tick(1);
             x.resend(0);
             x.cord(4, true);

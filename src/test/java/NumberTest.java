@@ -1,8 +1,5 @@
 /** The least and the greatest of each number that a call takes, and the first on either side that it refuses. */
-public final class NumberTest {
-    private static final int UNKNOWN = FlyingChange.UNKNOWN, OUTSIDE = FlyingChange.OUTSIDE, STATE = FlyingChange.STATE,
-        NONE = FlyingChange.NONE;
-
+public final class NumberTest extends Shops {
     private interface Call {
         int with(FlyingChange x, int v);
     }

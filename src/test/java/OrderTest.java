@@ -1,8 +1,5 @@
 /** Promises 23 to 26: WAITS and THE BEST ORDER. */
-public final class OrderTest {
-    private static final int UNKNOWN = FlyingChange.UNKNOWN, OUTSIDE = FlyingChange.OUTSIDE, STATE = FlyingChange.STATE,
-        NONE = FlyingChange.NONE;
-
+public final class OrderTest extends Shops {
     public static void main(String[] args) {
         promise23waits();
         promise23refusals();

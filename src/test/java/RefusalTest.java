@@ -5,10 +5,7 @@ import java.util.List;
  * What is refused changes nothing: a shop that was asked for what it refuses, and its twin that was not, are compared
  * at once and after more ticks. And of several refusals the first that the promise names is answered.
  */
-public final class RefusalTest {
-    private static final int UNKNOWN = FlyingChange.UNKNOWN, OUTSIDE = FlyingChange.OUTSIDE, STATE = FlyingChange.STATE,
-        FULL = FlyingChange.FULL, NONE = FlyingChange.NONE;
-
+public final class RefusalTest extends Shops {
     private interface Shop {
         FlyingChange made();
     }

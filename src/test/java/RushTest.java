@@ -1,8 +1,5 @@
 /** Promises 27 to 32: A RUSH and THE LOSS. */
-public final class RushTest {
-    private static final int UNKNOWN = FlyingChange.UNKNOWN, OUTSIDE = FlyingChange.OUTSIDE, STATE = FlyingChange.STATE,
-        NONE = FlyingChange.NONE;
-
+public final class RushTest extends Shops {
     public static void main(String[] args) {
         promise27rush();
         promise28load();

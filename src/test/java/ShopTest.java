@@ -1,8 +1,5 @@
 /** Promises 1 to 10: a new object, and the shop. */
-public final class ShopTest {
-    private static final int UNKNOWN = FlyingChange.UNKNOWN, OUTSIDE = FlyingChange.OUTSIDE, STATE = FlyingChange.STATE,
-        FULL = FlyingChange.FULL, NONE = FlyingChange.NONE;
-
+public final class ShopTest extends Shops {
     public static void main(String[] args) {
         promise1aNewObject();
         promise2post();

@@ -1,9 +1,5 @@
 /** Promises 16 to 22: the rules of a TICK, THE ROW, CLERKS and THE DRAWER. */
-public final class TickTest {
-    private static final int UNKNOWN = FlyingChange.UNKNOWN, OUTSIDE = FlyingChange.OUTSIDE, FULL = FlyingChange.FULL,
-        NONE = FlyingChange.NONE;
-    private static final int HOME = 0, WAITING = 1, ON_WIRE = 2, IN_ROW = 3, WITH_CLERK = 4, STRAY = 5;
-
+public final class TickTest extends Shops {
     public static void main(String[] args) {
         promise16numbers();
         promise16timetable();
@@ -30,36 +26,6 @@ public final class TickTest {
         promise21gives();
         promise22on();
         Due.end();
-    }
-
-    /** A COUNTER 1 on THE CAGE with so many CUPS. */
-    private static FlyingChange oneWire(int length, int gap, boolean both, int cups) {
-        FlyingChange x = new FlyingChange();
-        x.post(0, true, length, gap, both);
-        for (int i = 0; i < cups; i++) {
-            x.cup(1);
-        }
-        return x;
-    }
-
-    private static void sendAll(FlyingChange x, int... cups) {
-        for (int c : cups) {
-            x.send(c, 1, 0, 1);
-        }
-    }
-
-    private static void isAt(FlyingChange x, String when, int cup, int where, int at, int measure) {
-        String call = when + ", tick " + x.total(2) + ": cupAt(" + cup + ", ";
-        Due.is(call + "0)", x.cupAt(cup, 0), where);
-        Due.is(call + "1)", x.cupAt(cup, 1), at);
-        Due.is(call + "2)", x.cupAt(cup, 2), measure);
-    }
-
-    private static void isRow(FlyingChange x, String when, int... cups) {
-        for (int i = 0; i < cups.length; i++) {
-            Due.is(when + ": row(" + i + ")", x.row(i), cups[i]);
-        }
-        Due.is(when + ": row(" + cups.length + ")", x.row(cups.length), NONE);
     }
 
     private static void promise16numbers() {
@@ -293,29 +259,6 @@ public final class TickTest {
         }
     }
 
-    /** A JOINT 1 with COUNTERS 2, 3, 4; a CUP of each; each way there and back takes 6 ticks. */
-    private static FlyingChange threeCounters() {
-        FlyingChange x = new FlyingChange();
-        x.post(0, false, 1, 1, true);
-        for (int i = 2; i <= 4; i++) {
-            x.post(1, true, 1, 1, true);
-            x.cup(i);
-        }
-        x.clerk(1);
-        return x;
-    }
-
-    private static void goes(FlyingChange x, String when, int cup, int to) {
-        sendAll(x, cup);
-        x.tick(6);
-        int home = x.cupAt(cup, 5);
-        isAt(x, when, cup, to == home ? HOME : STRAY, to, NONE);
-        if (to != home) {
-            x.porter(cup);
-            x.tick(12);
-        }
-    }
-
     private static void promise16worn() {
         FlyingChange x = threeCounters();
         goes(x, "not worn", 1, 3);
@@ -527,14 +470,6 @@ public final class TickTest {
         Due.is("till(-1)", x.till(-1), OUTSIDE);
     }
 
-    private static FlyingChange drawerOf(int... coins) {
-        FlyingChange x = new FlyingChange();
-        for (int kind = 0; kind < coins.length; kind++) {
-            x.drawer(kind, coins[kind]);
-        }
-        return x;
-    }
-
     private static void promise20could() {
         FlyingChange x = drawerOf(1000, 1000, 1000, 1000, 1000, 1000);
         Due.is("nothing by nothing", x.could(0), 0);
@@ -552,12 +487,6 @@ public final class TickTest {
         Due.is("60 and 30 stand in the way of 72", drawerOf(0, 0, 0, 6, 1, 1).could(72), 2);
         Due.is("36 by threes and a one, too few", drawerOf(2, 11).could(36), NONE);
         Due.is("35 by threes and ones", drawerOf(2, 11).could(35), 13);
-    }
-
-    private static void areGiven(FlyingChange x, int amount, int... due) {
-        for (int kind = 0; kind < due.length; kind++) {
-            Due.is("gives(" + amount + ", " + kind + ")", x.gives(amount, kind), due[kind]);
-        }
     }
 
     private static void promise21gives() {

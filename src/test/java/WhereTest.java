@@ -1,7 +1,5 @@
 /** One CUP on its way through every WHERE, and all that is told of it there. */
-public final class WhereTest {
-    private static final int STATE = FlyingChange.STATE, NONE = FlyingChange.NONE;
-    private static final int HOME = 0, WAITING = 1, ON_WIRE = 2, IN_ROW = 3, WITH_CLERK = 4, STRAY = 5, WITH_PORTER = 6;
+public final class WhereTest extends Shops {
     private static final int UP = 1, DOWN = 0;
     private static final int NO_SALE = 0, OPEN = 1, ANSWERED = 2, REFUSED = 3;
     /** No POST's, WIRE's or CLERK's number, no CHILD. */
@@ -36,7 +34,7 @@ public final class WhereTest {
             Due.is(when + ": cupAt(0, " + what + ")", x.cupAt(0, what), due[what]);
         }
         Due.is(when + ": not home", x.total(3), where == HOME ? 0 : 1);
-        Due.is(when + ": sent again", x.send(0, 1, 0, 51), FlyingChange.OUTSIDE);
+        Due.is(when + ": sent again", x.send(0, 1, 0, 51), OUTSIDE);
         if (where != HOME) {
             Due.is(when + ": sent again", x.send(0, 1, 0, 1), STATE);
         }

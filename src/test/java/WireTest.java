@@ -1,6 +1,5 @@
 /** The rules of one WIRE, wherever it hangs: of a COUNTER or a JOINT, on THE CAGE or on a JOINT. */
-public final class WireTest {
-    private static final int WAITING = 1, ON_WIRE = 2;
+public final class WireTest extends Shops {
     private static final int UPS_FIRST = 0, LIKE = 1, DOWNS_FIRST = 2;
 
     private final FlyingChange x = new FlyingChange();
